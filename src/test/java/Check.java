@@ -1,0 +1,34 @@
+/** Counts answers that are not the ones that are due; a test ends with finish(). */
+final class Check {
+    private static final int MOST_SHOWN = 40;
+    private static int asked = 0;
+    private static int wrong = 0;
+
+    private Check() {
+    }
+
+    static void due(String call, long got, long want) {
+        asked++;
+        if (got != want) {
+            wrong++;
+            if (wrong <= MOST_SHOWN) {
+                System.out.println(call + " answered " + got + ", due is " + want);
+            }
+        }
+    }
+
+    static void due(String call, boolean got, boolean want) {
+        due(call, got ? 1 : 0, want ? 1 : 0);
+    }
+
+    static void finish() {
+        if (asked == 0) {
+            System.out.println("nothing was asked");
+            System.exit(1);
+        }
+        if (wrong != 0) {
+            System.out.println(wrong + " of " + asked + " answers are not as due");
+            System.exit(1);
+        }
+    }
+}

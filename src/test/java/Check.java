@@ -8,17 +8,21 @@ final class Check {
     }
 
     static void due(String call, long got, long want) {
+        due(call, Long.toString(got), Long.toString(want));
+    }
+
+    static void due(String call, boolean got, boolean want) {
+        due(call, Boolean.toString(got), Boolean.toString(want));
+    }
+
+    static void due(String call, String got, String want) {
         asked++;
-        if (got != want) {
+        if (!got.equals(want)) {
             wrong++;
             if (wrong <= MOST_SHOWN) {
                 System.out.println(call + " answered " + got + ", due is " + want);
             }
         }
-    }
-
-    static void due(String call, boolean got, boolean want) {
-        due(call, got ? 1 : 0, want ? 1 : 0);
     }
 
     static void finish() {

@@ -5,6 +5,7 @@ final class DeviceTest {
         descriptorTellsWhatItIs();
         sizesAreTheFourThatAreTold();
         tellingAnewTakesEndpointsScratchAndBytes();
+        nothingOfAFormerEndpointIsLeft();
         Check.finish();
     }
 
@@ -52,6 +53,24 @@ final class DeviceTest {
             Check.due("packets of " + size0, x.look(1) - from, 1 + 3 + 3 * (64 / size0) + 3);
             Check.due("all came", Scene.standOf(x, t), "2 0 1 64 64 0");
         }
+    }
+
+    private static void nothingOfAFormerEndpointIsLeft() {
+        WireBus x = Scene.found(10);
+        Scene.feed(x, 1, 60);
+        Scene.ask(x, 0, 64, 1, 0, 0, 1);
+        x.send(0, 1, 8);
+        x.put(0, 129, 9);
+        x.frames(1);
+        Scene.ask(x, 0, 2, 3, 0, 1, 0);
+        Check.due("before", Scene.pointOf(x, 0, 1) + " " + x.state(0, 5), "1 1 8 1 1 1");
+        x.detach(0);
+        x.device(0, 16, 0, 0);
+        x.endpoint(0, 1, 8, 0);
+        x.endpoint(0, 129, 8, 0);
+        Check.due("after, 1", Scene.pointOf(x, 0, 1), "0 0 0 -1 0");
+        Check.due("after, 129", Scene.pointOf(x, 0, 129), "0 0 0 -1 0");
+        Check.due("scratch", x.state(0, 5), 0);
     }
 
     private static void tellingAnewTakesEndpointsScratchAndBytes() {

@@ -7,6 +7,8 @@ final class FindingTest {
         statusOfTheAddressThatTheDeviceDidNotHear();
         stepsAreMadeBehindAllThatWait();
         goesOnBeyondThreeHundred();
+        anAddressOfAnEarlierTimeIsNone();
+        sixEndpointsAreTheMost();
         Check.finish();
     }
 
@@ -108,6 +110,33 @@ final class FindingTest {
         Scene.runUntilStill(x);
         Check.due("found", x.state(1, 2), 2);
         Check.due("in all", x.look(2), 13);
+    }
+
+    private static void anAddressOfAnEarlierTimeIsNone() {
+        WireBus x = Scene.found(40);
+        x.detach(0);
+        x.attach(0);
+        int p = x.look(1);
+        x.fault(p + 1, 0, 0);
+        x.fault(p + 3, 0, 0);
+        x.fault(p + 5, 0, 0);
+        x.frames(1);
+        Check.due("not found", Scene.stateOf(x, 0), "1 0 3 8 0");
+        Check.due("control", x.control(0, 32768, 0, 0, 2), -1);
+        Check.due("send", x.send(0, 1, 0), -1);
+    }
+
+    private static void sixEndpointsAreTheMost() {
+        WireBus x = new WireBus(40);
+        for (int a = 1; a <= 6; a++) {
+            x.endpoint(0, a, 8 << a % 4, 0);
+        }
+        Scene.find(x, 0);
+        Check.due("pipes", Scene.stateOf(x, 0), "3 1 2 8 6");
+        Check.due("the configuration", Scene.standOf(x, 4), "0 0 1 60 60 0");
+        for (int a = 1; a <= 6; a++) {
+            Check.due("open " + a, Scene.pointOf(x, 0, a), "0 0 0 0 1");
+        }
     }
 
     private static void goesOnBeyondThreeHundred() {

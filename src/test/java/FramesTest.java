@@ -9,6 +9,7 @@ final class FramesTest {
         controlUntilItDoesNotWait();
         bulkRoundAndRound();
         bulkGoesOnFromThePlaceThatHasGone();
+        firstAndLastPlace();
         nakOnlyOnceAFrame();
         earliestOfAPipe();
         Check.finish();
@@ -173,6 +174,26 @@ final class FramesTest {
         x.frames(1);
         x.detach(1);
         Check.due("on", places(Scene.frame(x)), "1.2 3.1 3.2");
+    }
+
+    private static void firstAndLastPlace() {
+        WireBus x = new WireBus(2);
+        for (int a = 1; a <= 6; a++) {
+            x.endpoint(5, a, 8, 0);
+        }
+        x.endpoint(0, 1, 8, 0);
+        Scene.find(x, 5);
+        Scene.find(x, 0);
+        for (int i = 0; i < 3; i++) {
+            x.send(5, 6, 0);
+            x.send(5, 5, 0);
+            x.send(0, 1, 0);
+        }
+        Check.due("the first one", places(Scene.frame(x)), "1.1 6.5");
+        Check.due("the last one", places(Scene.frame(x)), "6.6 1.1");
+        Check.due("round", places(Scene.frame(x)), "6.5 6.6");
+        Check.due("round", places(Scene.frame(x)), "1.1 6.5");
+        Check.due("the rest", places(Scene.frame(x)), "6.6");
     }
 
     private static void nakOnlyOnceAFrame() {

@@ -8,6 +8,7 @@ final class ReceiveTest {
         dataThatIsLostComesAgainAsItWas();
         nakAndStall();
         clearingTakesWhatWasSentWithoutAck();
+        notConfiguredDoesNotAnswer();
         Check.finish();
     }
 
@@ -104,6 +105,17 @@ final class ReceiveTest {
         Check.due("STALL", said.substring(said.indexOf("lost")), "lost IN 1.1, IN 1.1, 0:STALL");
         Check.due("STALLED, counted from 0", Scene.standOf(x, t), "0 129 2 0 9 0");
         Check.due("bytes wait", Scene.pointOf(x, 0, 129), "0 1 3 0 2");
+    }
+
+    private static void notConfiguredDoesNotAnswer() {
+        WireBus x = Scene.found(10);
+        Scene.feed(x, 1, 9);
+        x.put(0, 129, 9);
+        Scene.ask(x, 0, 0, 9, 0, 0, 0);
+        int t = x.receive(0, 129, 9);
+        Check.due("no answer", rest(Scene.frame(x)), "IN 1.1, IN 1.1, IN 1.1");
+        Check.due("FAILED", Scene.standOf(x, t), "0 129 3 0 9 3");
+        Check.due("closed, bytes wait", Scene.pointOf(x, 0, 129), "0 0 9 0 2");
     }
 
     private static void clearingTakesWhatWasSentWithoutAck() {

@@ -28,6 +28,10 @@ final class RequestTest {
         Check.due("130 0 of 0", asked(x, 130, 0, 3, 0, 2), "DONE 0 0");
         Check.due("130 0 of 128", asked(x, 130, 0, 0, 128, 2), "DONE 0 0");
         Check.due("130 0 of 129", asked(x, 130, 0, 4, 129, 2), "DONE 0 0");
+        asked(x, 128, 6, 512, 0, 9);
+        Check.due("130 0 of 129 behind other bytes", asked(x, 130, 0, 0, 129, 2), "DONE 0 0");
+        asked(x, 128, 6, 512, 0, 9);
+        Check.due("128 0 behind other bytes", asked(x, 128, 0, 0, 0, 2), "DONE 0 0");
         Check.due("130 0 of 131", asked(x, 130, 0, 0, 131, 2), "STALLED");
         Check.due("130 0 of 257", asked(x, 130, 0, 0, 257, 2), "STALLED");
         Check.due("130 0 of 131, length 0", asked(x, 130, 0, 0, 131, 0), "STALLED");
@@ -157,6 +161,7 @@ final class RequestTest {
                     || type == 64 && request == 1 || type == 0 && request == 9 || type == 2 && request == 1 || type == 2 && request == 3;
                 if (!known && !addressing) {
                     Check.due(type + " " + request, asked(x, type, request, 0, 0, 0), "STALLED");
+                    Check.due(type + " " + request + ", an ENDPOINT", asked(x, type, request, 0, 1, 0), "STALLED");
                     Check.due(type + " " + request + " of 1", asked(x, type, request, 256, 1, 1).startsWith("STALLED"), true);
                     x.end(1);
                 }

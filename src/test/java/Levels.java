@@ -32,7 +32,11 @@ final class Levels {
     }
 
     private static int[] sent(int kind, String payload) {
-        String bits = "00000001" + lowFirst(kind, 4) + lowFirst(15 - kind, 4) + payload;
+        return lay("00000001" + lowFirst(kind, 4) + lowFirst(15 - kind, 4) + payload);
+    }
+
+    /** Levels of any row of bits, a packet or not. */
+    static int[] lay(String bits) {
         String stuffed = bits.replace("111111", "1111110");
         int[] levels = new int[stuffed.length() + 3];
         int level = 1;
@@ -46,7 +50,7 @@ final class Levels {
         return levels;
     }
 
-    private static String lowFirst(int number, int width) {
+    static String lowFirst(int number, int width) {
         StringBuilder bits = new StringBuilder();
         for (int i = 0; i < width; i++) {
             bits.append((number >> i & 1) == 1 ? '1' : '0');
@@ -59,7 +63,7 @@ final class Levels {
     }
 
     /** As a division of polynomials: the bits with the first ones turned, and as many 0s behind them. */
-    private static String check(String bits, int width, int polynomial) {
+    static String check(String bits, int width, int polynomial) {
         char[] row = (bits + "0".repeat(width)).toCharArray();
         if (bits.length() < width) {
             return checkOfFew(bits, width, polynomial);

@@ -207,7 +207,7 @@ public final class WireBus {
             case 2:
                 return host.made;
             case 3:
-                return host.countWaiting();
+                return host.waiting;
             case 4:
                 return wire.faults;
             case 5:
@@ -298,11 +298,11 @@ public final class WireBus {
             case 1:
                 return of.kind;
             case 2:
-                return wire.countLevels(of);
+                return wire.countLevels(p);
             case 3:
                 return of.mark;
             default:
-                return what < 4 ? NONE : wire.levelOf(of, what - 4);
+                return what < 4 ? NONE : wire.levelOf(p, what - 4);
         }
     }
 
@@ -433,11 +433,9 @@ public final class WireBus {
             add(value >> 8 & 255);
         }
 
-        void copyTo(Packet other) {
-            other.kind = kind;
-            other.number = number;
+        void copyBytesTo(Packet other) {
             other.length = length;
-            System.arraycopy(bytes, 0, other.bytes, 0, bytes.length);
+            System.arraycopy(bytes, 0, other.bytes, 0, length);
         }
     }
 
@@ -626,6 +624,8 @@ public final class WireBus {
         private final int[] faultSpot = new int[MOST_FAULTS];
         private int faults;
         private int sent;
+        /** The packet whose levels the coder holds: it is asked for them one by one. */
+        private int laidOut = NONE;
 
         Wire() {
             for (int i = 0; i < KEPT; i++) {
@@ -705,6 +705,7 @@ public final class WireBus {
                 return null;
             }
             coder.encode(p);
+            laidOut = NONE;
             if (spot >= coder.length || coder.levels[spot] == what - 1) {
                 return p;
             }
@@ -719,8 +720,9 @@ public final class WireBus {
         boolean hasAnswer() {
             for (int d = 0; d < DEVICES; d++) {
                 if (devices[d].mode != ABSENT && devices[d].answers) {
+                    Packet reply = devices[d].reply;
+                    reply.copyBytesTo(blank(d, reply.kind));
                     devices[d].answers = false;
-                    devices[d].reply.copyTo(blank(d, NONE));
                     return true;
                 }
             }
@@ -731,16 +733,24 @@ public final class WireBus {
             return p >= 0 && p < sent && p >= sent - KEPT ? kept[p % KEPT] : null;
         }
 
-        int countLevels(Packet p) {
-            coder.encode(p);
+        private void layOut(int p) {
+            if (laidOut != p) {
+                coder.encode(kept[p % KEPT]);
+                laidOut = p;
+            }
+        }
+
+        int countLevels(int p) {
+            layOut(p);
             return coder.length;
         }
 
-        int levelOf(Packet p, int i) {
-            if (p.mark == CHANGED && i == p.spot) {
-                return p.level;
+        int levelOf(int p, int i) {
+            Packet of = kept[p % KEPT];
+            if (of.mark == CHANGED && i == of.spot) {
+                return of.level;
             }
-            coder.encode(p);
+            layOut(p);
             return i >= 0 && i < coder.length ? coder.levels[i] : NONE;
         }
     }
@@ -1505,6 +1515,7 @@ public final class WireBus {
         private final Peer[] peers = new Peer[DEVICES];
         private final Transfer[] transfers = new Transfer[MOST_TRANSFERS];
         private int made;
+        private int waiting;
         private final Pipe controls = new Pipe(0, false, 0, 0);
         /** The number of the next frame, or of the one that runs. */
         private int frame;
@@ -1524,22 +1535,13 @@ public final class WireBus {
             return made < MOST_TO_FIND;
         }
 
-        int countWaiting() {
-            int n = 0;
-            for (int i = 0; i < made; i++) {
-                if (transfers[i].status == WAITS) {
-                    n++;
-                }
-            }
-            return n;
-        }
-
         private Transfer keep(Transfer t) {
             if (made >= MOST_TRANSFERS) {
                 return null;
             }
             transfers[made] = t;
             made++;
+            waiting++;
             return t;
         }
 
@@ -1609,6 +1611,7 @@ public final class WireBus {
             for (int i = 0; i < made; i++) {
                 if (transfers[i].owner == d && transfers[i].status == WAITS) {
                     transfers[i].status = FAILED;
+                    waiting--;
                 }
             }
         }
@@ -1626,6 +1629,9 @@ public final class WireBus {
 
         /** The TRANSFER of the next TRANSACTION in this frame; null if there is none. */
         Transfer choose() {
+            if (waiting == 0) {
+                return null;
+            }
             Transfer t = chooseInterrupt();
             if (t == null) {
                 t = ready(controls);
@@ -1698,6 +1704,7 @@ public final class WireBus {
                 wire.carry();
             }
             if (t.status != WAITS) {
+                waiting--;
                 finish(t);
             }
         }

@@ -111,6 +111,7 @@ final class TalkTest {
         Check.due("OUT", hear(fresh, packet(DATA1, 0)), "" + NAK);
         Check.due("another address", hear(fresh, packet(IN, 1)), "");
         TalkTest t = new TalkTest();
+        t.request(128, 6, 256, 0, 18);
         t.bus.detach(0);
         t.bus.attach(0);
         Check.due("attached again", hear(t.device, packet(IN, 0)), "" + NAK);

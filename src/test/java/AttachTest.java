@@ -10,7 +10,7 @@ final class AttachTest {
     }
 
     private static void wrongCalls() {
-        WireBus x = new WireBus(10);
+        Bus x = new Bus(10);
         Check.due("attach(-1)", x.attach(-1), false);
         Check.due("attach(6)", x.attach(6), false);
         Check.due("attach(min)", x.attach(Integer.MIN_VALUE), false);
@@ -22,7 +22,7 @@ final class AttachTest {
     }
 
     private static void onlyOneIsDefault() {
-        WireBus x = new WireBus(2);
+        Bus x = new Bus(2);
         x.attach(1);
         Check.due("another one is DEFAULT", x.attach(2), false);
         Check.due("all stays", Scene.stateOf(x, 2), "0 0 0 8 0");
@@ -38,7 +38,7 @@ final class AttachTest {
     }
 
     private static void itIsThereAndToBeFound() {
-        WireBus x = new WireBus(2);
+        Bus x = new Bus(2);
         x.device(4, 64, 0, 0);
         x.endpoint(4, 1, 8, 0);
         Check.due("attach", x.attach(4), true);
@@ -49,7 +49,7 @@ final class AttachTest {
     }
 
     private static void itStartsAnew() {
-        WireBus x = Scene.found(10);
+        Bus x = Scene.found(10);
         Scene.feed(x, 1, 60);
         x.put(0, 129, 20);
         x.send(0, 1, 8);
@@ -72,7 +72,7 @@ final class AttachTest {
 
     private static void notBehindTwoHundredAndNinetyTransfers() {
         for (int made = 288; made <= 291; made++) {
-            WireBus x = Scene.found(40);
+            Bus x = Scene.found(40);
             for (int i = x.look(2); i < made; i++) {
                 x.send(0, 1, 0);
             }

@@ -18,7 +18,7 @@ final class ControlTest {
     }
 
     private static void wrongCallsLeaveAllAsItIs() {
-        WireBus x = Scene.found(10);
+        Bus x = Scene.found(10);
         Scene.feed(x, 1, 50);
         int[][] wrong = {{-1, 32768, 2}, {6, 32768, 2}, {1, 32768, 2}, {0, 32768, -1}, {0, 32768, 101}, {0, 5, 0}, {0, 65536 + 5, 0},
             {0, 16385, 51}, {0, 16385, -1}, {0, 16385, Integer.MAX_VALUE}, {0, 32768, Integer.MIN_VALUE}, {Integer.MIN_VALUE, 0, 0}};
@@ -32,7 +32,7 @@ final class ControlTest {
         Check.due("tape", x.look(5), 0);
         Check.due("stand", Scene.standOf(x, 7), "0 0 0 0 50 0");
         Check.due("type 128, request 5", x.control(0, 32768 + 5, 0, 0, 0), 8);
-        WireBus y = new WireBus(1);
+        Bus y = new Bus(1);
         y.attach(0);
         Check.due("to be found", y.control(0, 32768, 0, 0, 2), -1);
         y.frames(6);
@@ -40,13 +40,13 @@ final class ControlTest {
     }
 
     private static void eightBytesOfSetup() {
-        WireBus x = Scene.found(1);
+        Bus x = Scene.found(1);
         x.control(0, 0x7F_C1_02, 0x1_0304, -2, 0x25);
         Check.due("SETUP", rest(Scene.frame(x)), "SETUP 1.0, DATA0 193 2 4 3 254 255 37 0, 0:ACK");
     }
 
     private static void bytesToTheHost() {
-        WireBus x = Scene.found(10);
+        Bus x = Scene.found(10);
         Scene.feed(x, 100, 64);
         Scene.ask(x, 0, 64, 1, 0, 0, 64);
         int t = x.control(0, 192 * 256 + 1, 46, 0, 50);
@@ -69,7 +69,7 @@ final class ControlTest {
     }
 
     private static void bytesFromTheHost() {
-        WireBus x = Scene.found(10);
+        Bus x = Scene.found(10);
         Scene.feed(x, 1, 30);
         int t = x.control(0, 64 * 256 + 1, 40, 7, 18);
         Check.due("gone from the tape", x.look(5), 12);
@@ -87,14 +87,14 @@ final class ControlTest {
     }
 
     private static void noBytes() {
-        WireBus x = Scene.found(10);
+        Bus x = Scene.found(10);
         int t = x.control(0, 128 * 256 + 6, 256, 0, 0);
         Check.due("to the host, of length 0", rest(Scene.frame(x)), "SETUP 1.0, DATA0 128 6 0 1 0 0 0 0, 0:ACK, IN 1.0, 0:DATA1, ACK");
         Check.due("stand", Scene.standOf(x, t), "0 0 1 0 0 0");
     }
 
     private static void refused() {
-        WireBus x = Scene.found(10);
+        Bus x = Scene.found(10);
         Scene.feed(x, 1, 70);
         int t = x.control(0, 128 * 256 + 6, 257, 0, 8);
         Check.due("IN", rest(Scene.frame(x)), "SETUP 1.0, DATA0 128 6 1 1 0 0 8 0, 0:ACK, IN 1.0, 0:STALL");
@@ -114,7 +114,7 @@ final class ControlTest {
 
     private static void errorsInEachStage() {
         for (int lost = 1; lost <= 12; lost++) {
-            WireBus x = Scene.found(40);
+            Bus x = Scene.found(40);
             Scene.feed(x, 1, 20);
             int t = x.control(0, 64 * 256 + 1, 2, 0, 18);
             x.fault(x.look(1) + lost, 0, 0);
@@ -128,7 +128,7 @@ final class ControlTest {
             Check.due("DONE, lost " + lost, Scene.standOf(x, t), "0 0 1 20 20 0");
             Check.due("bytes", Scene.bytesOf(x, t), "0 0 1 2 3 4 5 6 7 8 9 10 11 12 13 14 15 16 17 18");
         }
-        WireBus x = Scene.found(40);
+        Bus x = Scene.found(40);
         Scene.feed(x, 1, 20);
         int t = x.control(0, 64 * 256 + 1, 2, 0, 18);
         int p = x.look(1);
@@ -145,7 +145,7 @@ final class ControlTest {
 
     /** A lost DATA of SETUP has no answer; the next SETUP begins anew. */
     private static void nakAndStallAreNoAnswerToSetup() {
-        WireBus x = Scene.found(40);
+        Bus x = Scene.found(40);
         int t = x.control(0, 128 * 256 + 8, 0, 0, 1);
         int p = x.look(1);
         x.fault(p + 2, 0, 0);
@@ -157,7 +157,7 @@ final class ControlTest {
     }
 
     private static void closedPipesAreCleared() {
-        WireBus x = Scene.found(40);
+        Bus x = Scene.found(40);
         int[] addresses = {1, 129, 130};
         for (int a : addresses) {
             Scene.ask(x, 0, 2, 3, 0, a, 0);

@@ -10,7 +10,7 @@ final class DetachTest {
     }
 
     private static void wrongCalls() {
-        WireBus x = new WireBus(10);
+        Bus x = new Bus(10);
         Check.due("detach(-1)", x.detach(-1), false);
         Check.due("detach(6)", x.detach(6), false);
         Check.due("detach(max)", x.detach(Integer.MAX_VALUE), false);
@@ -21,7 +21,7 @@ final class DetachTest {
     }
 
     private static void whatWaitsHasFailed() {
-        WireBus x = Scene.found(4);
+        Bus x = Scene.found(4);
         x.device(1, 8, 0, 0);
         x.endpoint(1, 129, 8, 0);
         Scene.find(x, 1);
@@ -46,7 +46,7 @@ final class DetachTest {
     }
 
     private static void theHostKnowsItNot() {
-        WireBus x = Scene.found(10);
+        Bus x = Scene.found(10);
         Scene.feed(x, 1, 40);
         Scene.ask(x, 0, 64, 1, 10, 0, 3);
         x.detach(0);
@@ -62,14 +62,14 @@ final class DetachTest {
     }
 
     private static void nothingAnswersAnyMore() {
-        WireBus x = Scene.found(10);
+        Bus x = Scene.found(10);
         x.receive(0, 129, 8);
         x.detach(0);
         Check.due("an empty frame", Scene.frame(x), "SOF " + (x.look(0) - 1));
     }
 
     private static void findingEnds() {
-        WireBus x = new WireBus(1);
+        Bus x = new Bus(1);
         x.attach(0);
         x.frames(2);
         x.detach(0);

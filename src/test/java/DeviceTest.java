@@ -10,7 +10,7 @@ final class DeviceTest {
     }
 
     private static void wrongCallsLeaveAllAsItIs() {
-        WireBus x = new WireBus(10);
+        Bus x = new Bus(10);
         Check.due("device(-1)", x.device(-1, 8, 1, 1), false);
         Check.due("device(6)", x.device(6, 8, 1, 1), false);
         Check.due("device(min)", x.device(Integer.MIN_VALUE, 8, 1, 1), false);
@@ -29,11 +29,11 @@ final class DeviceTest {
     }
 
     private static void descriptorTellsWhatItIs() {
-        WireBus x = new WireBus(10);
+        Bus x = new Bus(10);
         Scene.find(x, 3);
         Check.due("one that was never told", Scene.bytesOf(x, 2), "18 1 0 2 255 0 0 8 0 0 0 0 0 1 0 0 0 1");
         Check.due("its configuration", Scene.bytesOf(x, 4), "9 2 18 0 1 1 0 128 50 9 4 0 0 0 255 0 0 0");
-        x = new WireBus(10);
+        x = new Bus(10);
         x.device(1, 64, -1, 0x12345);
         Scene.find(x, 1);
         Check.due("the lowest 16 bits", Scene.bytesOf(x, 2), "18 1 0 2 255 0 0 64 255 255 69 35 0 1 0 0 0 1");
@@ -42,7 +42,7 @@ final class DeviceTest {
     private static void sizesAreTheFourThatAreTold() {
         int[] sizes = {8, 16, 32, 64};
         for (int size0 : sizes) {
-            WireBus x = new WireBus(40);
+            Bus x = new Bus(40);
             Check.due("device of " + size0, x.device(2, size0, 1, 2), true);
             Scene.find(x, 2);
             Check.due("the host knows " + size0, x.state(2, 3), size0);
@@ -56,7 +56,7 @@ final class DeviceTest {
     }
 
     private static void nothingOfAFormerEndpointIsLeft() {
-        WireBus x = Scene.found(10);
+        Bus x = Scene.found(10);
         Scene.feed(x, 1, 60);
         Scene.ask(x, 0, 64, 1, 0, 0, 1);
         x.send(0, 1, 8);
@@ -74,7 +74,7 @@ final class DeviceTest {
     }
 
     private static void tellingAnewTakesEndpointsScratchAndBytes() {
-        WireBus x = Scene.found(10);
+        Bus x = Scene.found(10);
         Scene.feed(x, 1, 30);
         Check.due("put", x.put(0, 129, 5), 5);
         Scene.ask(x, 0, 64, 1, 60, 0, 4);

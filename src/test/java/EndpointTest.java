@@ -9,7 +9,7 @@ final class EndpointTest {
     }
 
     private static boolean told(int address, int size, int interval) {
-        WireBus x = new WireBus(1);
+        Bus x = new Bus(1);
         boolean answer = x.endpoint(4, address, size, interval);
         Check.due("there is one", x.point(4, address, 2), answer ? 0 : -1);
         return answer;
@@ -39,7 +39,7 @@ final class EndpointTest {
     }
 
     private static void sixAreAllAndNoneTwice() {
-        WireBus x = new WireBus(1);
+        Bus x = new Bus(1);
         Check.due("1", x.endpoint(0, 1, 8, 0), true);
         Check.due("1 again", x.endpoint(0, 1, 16, 0), false);
         Check.due("129 beside 1", x.endpoint(0, 129, 8, 0), true);
@@ -53,7 +53,7 @@ final class EndpointTest {
     }
 
     private static void wrongDevices() {
-        WireBus x = new WireBus(1);
+        Bus x = new Bus(1);
         Check.due("device -1", x.endpoint(-1, 1, 8, 0), false);
         Check.due("device 6", x.endpoint(6, 1, 8, 0), false);
         x.attach(0);
@@ -63,7 +63,7 @@ final class EndpointTest {
     }
 
     private static void configurationTellsThemAsTheyWereTold() {
-        WireBus x = new WireBus(40);
+        Bus x = new Bus(40);
         x.device(5, 64, 0, 0);
         x.endpoint(5, 130, 63, 255);
         x.endpoint(5, 3, 64, 0);

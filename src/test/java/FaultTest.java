@@ -9,7 +9,7 @@ final class FaultTest {
     }
 
     private static void wrongCallsLeaveAllAsItIs() {
-        WireBus x = new WireBus(1);
+        Bus x = new Bus(1);
         int[][] wrong = {{-1, 0, 0}, {Integer.MIN_VALUE, 0, 0}, {0, -1, 0}, {0, 4, 0}, {0, Integer.MAX_VALUE, 0}, {0, Integer.MIN_VALUE, 0},
             {0, 1, -1}, {0, 2, -1}, {0, 3, -1}, {0, 1, Integer.MIN_VALUE}};
         for (int[] w : wrong) {
@@ -30,7 +30,7 @@ final class FaultTest {
     }
 
     private static void fiftyWait() {
-        WireBus x = new WireBus(1);
+        Bus x = new Bus(1);
         for (int i = 0; i < 50; i++) {
             Check.due("fault " + i, x.fault(2 * i, 0, 0), true);
         }
@@ -47,7 +47,7 @@ final class FaultTest {
     }
 
     private static void eachComesToItsPacket() {
-        WireBus x = new WireBus(1);
+        Bus x = new Bus(1);
         int[] plain = Levels.startOfFrame(1);
         x.fault(2, 3, 0);
         x.fault(1, 3, 34);
@@ -71,7 +71,7 @@ final class FaultTest {
     }
 
     private static void levelsThatAreNoOtherOnes() {
-        WireBus x = new WireBus(1);
+        Bus x = new Bus(1);
         x.fault(0, 1, 0);
         x.fault(1, 2, 1);
         x.fault(2, 3, 32);
@@ -85,7 +85,7 @@ final class FaultTest {
             Check.due("levels of " + p, x.packet(p, 2), 35);
         }
         Check.due("none waits", x.look(4), 0);
-        WireBus y = Scene.found(10);
+        Bus y = Scene.found(10);
         y.send(0, 1, 0);
         int p = y.look(1);
         y.fault(p + 1, 1, 0);

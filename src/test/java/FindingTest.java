@@ -13,7 +13,7 @@ final class FindingTest {
     }
 
     private static void everyPacketOfIt() {
-        WireBus x = new WireBus(40);
+        Bus x = new Bus(40);
         x.device(2, 16, 0x1234, 0x5678);
         x.endpoint(2, 1, 8, 0);
         x.attach(2);
@@ -38,7 +38,7 @@ final class FindingTest {
     }
 
     private static void sizeZeroIsEightUntilItIsKnown() {
-        WireBus x = new WireBus(1);
+        Bus x = new Bus(1);
         x.device(0, 64, 0, 0);
         x.attach(0);
         x.frames(2);
@@ -58,7 +58,7 @@ final class FindingTest {
         int[] framesBefore = {0, 3, 5, 9, 13, 18};
         String[] state = {"1 0 3 8 0", "1 0 3 8 0", "2 4 3 8 0", "2 4 3 8 0", "2 4 3 8 0", "2 4 3 8 0"};
         for (int step = 0; step < 6; step++) {
-            WireBus x = new WireBus(1);
+            Bus x = new Bus(1);
             x.device(3, 8, 0, 0);
             x.attach(3);
             for (int i = 0; i < 100 && x.look(2) <= step; i++) {
@@ -84,7 +84,7 @@ final class FindingTest {
 
     /** The host has given the address, the device has not taken it: it is DEFAULT for good, and blocks others. */
     private static void statusOfTheAddressThatTheDeviceDidNotHear() {
-        WireBus x = new WireBus(40);
+        Bus x = new Bus(40);
         x.attach(0);
         x.fault(15, 0, 0);
         x.frames(1);
@@ -97,7 +97,7 @@ final class FindingTest {
     }
 
     private static void stepsAreMadeBehindAllThatWait() {
-        WireBus x = Scene.found(8);
+        Bus x = Scene.found(8);
         x.attach(1);
         int t = x.control(0, 32768, 0, 0, 2);
         Check.due("number", t, 7);
@@ -113,7 +113,7 @@ final class FindingTest {
     }
 
     private static void anAddressOfAnEarlierTimeIsNone() {
-        WireBus x = Scene.found(40);
+        Bus x = Scene.found(40);
         x.detach(0);
         x.attach(0);
         int p = x.look(1);
@@ -127,7 +127,7 @@ final class FindingTest {
     }
 
     private static void sixEndpointsAreTheMost() {
-        WireBus x = new WireBus(40);
+        Bus x = new Bus(40);
         for (int a = 1; a <= 6; a++) {
             x.endpoint(0, a, 8 << a % 4, 0);
         }
@@ -140,7 +140,7 @@ final class FindingTest {
     }
 
     private static void goesOnBeyondThreeHundred() {
-        WireBus x = new WireBus(1);
+        Bus x = new Bus(1);
         x.device(0, 8, 0, 0);
         x.endpoint(0, 1, 8, 0);
         Scene.find(x, 0);

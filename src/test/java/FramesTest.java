@@ -20,7 +20,7 @@ final class FramesTest {
     }
 
     private static void wrongNumbers() {
-        WireBus x = new WireBus(1);
+        Bus x = new Bus(1);
         int[] wrong = {0, -1, 201, Integer.MIN_VALUE, Integer.MAX_VALUE};
         for (int n : wrong) {
             Check.due("frames(" + n + ")", x.frames(n), -1);
@@ -31,7 +31,7 @@ final class FramesTest {
     }
 
     private static void numbersOfFrames() {
-        WireBus x = new WireBus(1);
+        Bus x = new Bus(1);
         for (int i = 0; i < 10; i++) {
             x.frames(200);
         }
@@ -43,8 +43,8 @@ final class FramesTest {
         Check.due("packets go on", x.look(1), 2049);
     }
 
-    private static WireBus withInterrupts() {
-        WireBus x = new WireBus(40);
+    private static Bus withInterrupts() {
+        Bus x = new Bus(40);
         x.device(1, 8, 0, 0);
         x.endpoint(1, 131, 3, 3);
         x.endpoint(1, 129, 2, 5);
@@ -56,7 +56,7 @@ final class FramesTest {
     }
 
     private static void interruptsByInterval() {
-        WireBus x = withInterrupts();
+        Bus x = withInterrupts();
         x.receive(1, 129, 2);
         x.receive(1, 131, 3);
         x.receive(0, 132, 1);
@@ -68,7 +68,7 @@ final class FramesTest {
     }
 
     private static void interruptsComeFirstThenControlThenBulk() {
-        WireBus x = Scene.found(40);
+        Bus x = Scene.found(40);
         Scene.goToEvenFrame(x);
         Scene.feed(x, 1, 40);
         x.put(0, 130, 9);
@@ -86,7 +86,7 @@ final class FramesTest {
     }
 
     private static void roomIsSharedByAll() {
-        WireBus x = Scene.found(2);
+        Bus x = Scene.found(2);
         Scene.goToEvenFrame(x);
         x.send(0, 1, 0);
         x.control(0, 128 * 256 + 8, 0, 0, 1);
@@ -97,7 +97,7 @@ final class FramesTest {
         Check.due("even again", rest(Scene.frame(x)), "IN 1.2, 0:NAK, OUT 1.1, DATA0, 0:ACK");
         x.receive(0, 129, 1);
         Check.due("odd again", rest(Scene.frame(x)), "IN 1.1, 0:NAK");
-        WireBus y = withInterrupts();
+        Bus y = withInterrupts();
         while (y.look(0) % 15 != 0) {
             y.frames(1);
         }
@@ -107,7 +107,7 @@ final class FramesTest {
     }
 
     private static void controlUntilItDoesNotWait() {
-        WireBus x = Scene.found(6);
+        Bus x = Scene.found(6);
         x.control(0, 128 * 256 + 8, 0, 0, 1);
         x.control(0, 128 * 256, 0, 0, 2);
         int p = x.look(1);
@@ -117,8 +117,8 @@ final class FramesTest {
         Check.due("the rest", rest(Scene.frame(x)), "OUT 1.0, DATA1, 0:ACK");
     }
 
-    private static WireBus withBulk(int room) {
-        WireBus x = new WireBus(room);
+    private static Bus withBulk(int room) {
+        Bus x = new Bus(room);
         for (int d = 0; d < 3; d++) {
             x.device(d, 8, 0, 0);
             x.endpoint(d, 1, 8, 0);
@@ -139,7 +139,7 @@ final class FramesTest {
         return text.toString().trim();
     }
 
-    private static void sendEverywhere(WireBus x, int times) {
+    private static void sendEverywhere(Bus x, int times) {
         for (int i = 0; i < times; i++) {
             for (int d = 0; d < 3; d++) {
                 x.send(d, 1, 0);
@@ -149,7 +149,7 @@ final class FramesTest {
     }
 
     private static void bulkRoundAndRound() {
-        WireBus x = withBulk(4);
+        Bus x = withBulk(4);
         sendEverywhere(x, 3);
         Check.due("from the first one", places(Scene.frame(x)), "1.1 1.2 2.1 2.2");
         Check.due("on", places(Scene.frame(x)), "3.1 3.2 1.1 1.2");
@@ -165,7 +165,7 @@ final class FramesTest {
     }
 
     private static void bulkGoesOnFromThePlaceThatHasGone() {
-        WireBus x = withBulk(3);
+        Bus x = withBulk(3);
         sendEverywhere(x, 2);
         Check.due("served", places(Scene.frame(x)), "1.1 1.2 2.1");
         x.detach(1);
@@ -177,7 +177,7 @@ final class FramesTest {
     }
 
     private static void firstAndLastPlace() {
-        WireBus x = new WireBus(2);
+        Bus x = new Bus(2);
         for (int a = 1; a <= 6; a++) {
             x.endpoint(5, a, 8, 0);
         }
@@ -197,7 +197,7 @@ final class FramesTest {
     }
 
     private static void nakOnlyOnceAFrame() {
-        WireBus x = new WireBus(6);
+        Bus x = new Bus(6);
         x.device(0, 64, 0, 0);
         x.endpoint(0, 129, 8, 0);
         x.endpoint(0, 1, 8, 0);
@@ -210,7 +210,7 @@ final class FramesTest {
     }
 
     private static void earliestOfAPipe() {
-        WireBus x = Scene.found(1);
+        Bus x = Scene.found(1);
         Scene.feed(x, 1, 40);
         int a = x.send(0, 1, 9);
         int b = x.send(0, 1, 1);

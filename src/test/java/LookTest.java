@@ -1,7 +1,7 @@
 /** Promise 15: look. */
 final class LookTest {
     public static void main(String[] args) {
-        WireBus x = Scene.found(40);
+        Bus x = Scene.found(40);
         int[] wrong = {-1, 6, 7, Integer.MIN_VALUE, Integer.MAX_VALUE};
         for (int what : wrong) {
             Check.due("look(" + what + ")", x.look(what), -1);

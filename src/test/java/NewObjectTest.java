@@ -7,7 +7,7 @@ final class NewObjectTest {
     }
 
     private static void allIsEmpty() {
-        WireBus x = new WireBus(10);
+        Bus x = new Bus(10);
         for (int what = 0; what <= 5; what++) {
             Check.due("look(" + what + ")", x.look(what), 0);
         }
@@ -43,13 +43,13 @@ final class NewObjectTest {
     }
 
     private static int firstFrameOf(int room) {
-        WireBus x = new WireBus(room);
+        Bus x = new Bus(room);
         Check.due("attach", x.attach(0), true);
         return x.frames(1);
     }
 
     private static int bulkFrameOf(int room) {
-        WireBus x = new WireBus(room);
+        Bus x = new Bus(room);
         x.device(0, 64, 1, 2);
         x.endpoint(0, 1, 8, 0);
         x.attach(0);

@@ -15,7 +15,7 @@ final class PacketTest {
     }
 
     private static void wrongNumbers() {
-        WireBus x = new WireBus(1);
+        Bus x = new Bus(1);
         Check.due("none yet", x.packet(0, 0), -1);
         x.frames(3);
         int[] wrong = {-1, 3, 4, Integer.MIN_VALUE, Integer.MAX_VALUE};
@@ -32,7 +32,7 @@ final class PacketTest {
     }
 
     private static void theLastSixty() {
-        WireBus x = new WireBus(1);
+        Bus x = new Bus(1);
         x.frames(60);
         Check.due("the first one", x.packet(0, 1), 5);
         x.frames(1);
@@ -54,7 +54,7 @@ final class PacketTest {
     }
 
     private static void levelsWrittenOut() {
-        WireBus x = Scene.found(10);
+        Bus x = Scene.found(10);
         x.send(0, 1, 0);
         int p = x.look(1);
         x.frames(1);
@@ -66,7 +66,7 @@ final class PacketTest {
     }
 
     private static void levelsOfEveryKind() {
-        WireBus x = Scene.found(40);
+        Bus x = Scene.found(40);
         Scene.feed(x, 1, 30);
         x.put(0, 129, 10);
         x.receive(0, 129, 16);
@@ -91,8 +91,11 @@ final class PacketTest {
 
     /** Bytes whose 1s run over their ends. */
     private static void stuffing() {
-        WireBus x = Scene.found(10);
+        Bus x = Scene.found(10);
         for (int b = 0; b < 240; b++) {
+            if (b % 20 == 0) {
+                x = Scene.found(10);
+            }
             x.feed(0xFF000000 | b << 16 | 0x3F00 | b, -1, 0, 0, 0);
             x.end(8);
             x.send(0, 1, 8);
@@ -115,7 +118,7 @@ final class PacketTest {
                 continue;
             }
             tried++;
-            WireBus x = Scene.found(1);
+            Bus x = Scene.found(1);
             x.feed(pair << 16, 0, 0, 0, 0);
             x.end(2);
             int t = x.send(0, 1, 2);
@@ -141,7 +144,7 @@ final class PacketTest {
     }
 
     private static void longestPacket() {
-        WireBus x = new WireBus(10);
+        Bus x = new Bus(10);
         x.endpoint(0, 1, 64, 0);
         Scene.find(x, 0);
         for (int i = 0; i < 4; i++) {
@@ -161,10 +164,10 @@ final class PacketTest {
     /** Each level of the three packets of a TRANSACTION as each other one: an ERROR each time, then it is sent again. */
     private static void anyOtherLevelIsNoPacket() {
         for (int which = 1; which <= 3; which++) {
-            WireBus x = Scene.found(2);
+            Bus x = Scene.found(2);
             int levels = which == 1 ? 35 : which == 2 ? 8 * 12 + 3 : 19;
             for (int i = 0; i < levels + 3; i++) {
-                if (i % 20 == 0) {
+                if (i % 8 == 0) {
                     x = Scene.found(2);
                 }
                 for (int what = 1; what <= 3; what++) {
@@ -188,7 +191,7 @@ final class PacketTest {
         }
     }
 
-    private static boolean differs(WireBus x, int p, int i, int what, int which) {
+    private static boolean differs(Bus x, int p, int i, int what, int which) {
         int kind = x.packet(p, 1);
         int[] plain = which == 1 ? Levels.token(1, 1, 1) : which == 2 ? Levels.data(kind, 1, 2, 3, 4, 5, 6, 7, 8) : Levels.handshake(2);
         return plain[i] != what - 1;

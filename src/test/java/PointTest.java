@@ -1,7 +1,7 @@
 /** Promise 18: point. */
 final class PointTest {
     public static void main(String[] args) {
-        WireBus x = Scene.found(1);
+        Bus x = Scene.found(1);
         int[][] wrong = {{-1, 1}, {6, 1}, {1, 1}, {0, 0}, {0, 2}, {0, 128}, {0, 131}, {0, 257}, {0, -1}, {Integer.MIN_VALUE, 1},
             {0, Integer.MIN_VALUE}, {0, Integer.MAX_VALUE}};
         for (int[] w : wrong) {

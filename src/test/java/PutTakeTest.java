@@ -10,7 +10,7 @@ final class PutTakeTest {
     }
 
     private static void wrongPuts() {
-        WireBus x = Scene.found(10);
+        Bus x = Scene.found(10);
         Scene.feed(x, 1, 20);
         int[][] wrong = {{-1, 129, 1}, {6, 129, 1}, {1, 129, 1}, {0, 131, 1}, {0, 1, 1}, {0, 128, 0}, {0, 0, 0}, {0, 385, 1},
             {0, 129, -1}, {0, 129, 21}, {0, 129, Integer.MIN_VALUE}, {0, 129, Integer.MAX_VALUE}, {Integer.MAX_VALUE, 129, 0}};
@@ -26,7 +26,7 @@ final class PutTakeTest {
     }
 
     private static void putsAddUp() {
-        WireBus x = Scene.found(10);
+        Bus x = Scene.found(10);
         Scene.feed(x, 1, 20);
         Check.due("put 0", x.put(0, 129, 0), 0);
         Check.due("put 3", x.put(0, 129, 3), 3);
@@ -40,7 +40,7 @@ final class PutTakeTest {
     }
 
     private static void roomForTwoHundredAndFiftySix() {
-        WireBus x = Scene.found(40);
+        Bus x = Scene.found(40);
         Scene.feed(x, 0, 200);
         Check.due("200", x.put(0, 129, 200), 200);
         Scene.feed(x, 200, 100);
@@ -69,7 +69,7 @@ final class PutTakeTest {
     }
 
     private static void wrongTakes() {
-        WireBus x = Scene.found(10);
+        Bus x = Scene.found(10);
         Scene.feed(x, 1, 20);
         x.put(0, 129, 5);
         x.send(0, 1, 3);
@@ -86,7 +86,7 @@ final class PutTakeTest {
     }
 
     private static void takenInOrder() {
-        WireBus x = Scene.found(10);
+        Bus x = Scene.found(10);
         Scene.feed(x, 250, 10);
         x.send(0, 1, 10);
         x.frames(1);

@@ -17,7 +17,7 @@ final class ReceiveTest {
     }
 
     private static void wrongCalls() {
-        WireBus x = Scene.found(10);
+        Bus x = Scene.found(10);
         int[][] wrong = {{-1, 129, 1}, {6, 129, 1}, {1, 129, 1}, {0, 131, 1}, {0, 128, 1}, {0, 1, 1}, {0, 385, 1}, {0, -127, 1},
             {0, 129, 0}, {0, 129, -1}, {0, 129, 101}, {0, 129, Integer.MIN_VALUE}, {0, 129, Integer.MAX_VALUE}};
         for (int[] w : wrong) {
@@ -31,7 +31,7 @@ final class ReceiveTest {
     }
 
     private static void allOrAShortOneEndsIt() {
-        WireBus x = Scene.found(10);
+        Bus x = Scene.found(10);
         Scene.feed(x, 1, 100);
         x.put(0, 129, 40);
         int whole = x.receive(0, 129, 32);
@@ -47,7 +47,7 @@ final class ReceiveTest {
     }
 
     private static void moreThanAskedForFails() {
-        WireBus x = Scene.found(10);
+        Bus x = Scene.found(10);
         Scene.feed(x, 1, 20);
         x.put(0, 129, 10);
         int t = x.receive(0, 129, 7);
@@ -61,7 +61,7 @@ final class ReceiveTest {
     }
 
     private static void anAckThatIsLost() {
-        WireBus x = Scene.found(10);
+        Bus x = Scene.found(10);
         Scene.feed(x, 1, 20);
         x.put(0, 129, 3);
         int t = x.receive(0, 129, 20);
@@ -77,7 +77,7 @@ final class ReceiveTest {
     }
 
     private static void dataThatIsLostComesAgainAsItWas() {
-        WireBus x = Scene.found(1);
+        Bus x = Scene.found(1);
         Scene.feed(x, 1, 20);
         x.put(0, 129, 2);
         int t = x.receive(0, 129, 9);
@@ -91,7 +91,7 @@ final class ReceiveTest {
     }
 
     private static void nakAndStall() {
-        WireBus x = Scene.found(10);
+        Bus x = Scene.found(10);
         int t = x.receive(0, 129, 9);
         Check.due("NAK", rest(Scene.frame(x)), "IN 1.1, 0:NAK");
         x.fault(x.look(1) + 1, 0, 0);
@@ -108,7 +108,7 @@ final class ReceiveTest {
     }
 
     private static void notConfiguredDoesNotAnswer() {
-        WireBus x = Scene.found(10);
+        Bus x = Scene.found(10);
         Scene.feed(x, 1, 9);
         x.put(0, 129, 9);
         Scene.ask(x, 0, 0, 9, 0, 0, 0);
@@ -120,7 +120,7 @@ final class ReceiveTest {
 
     private static void clearingTakesWhatWasSentWithoutAck() {
         for (int way = 0; way < 2; way++) {
-            WireBus x = Scene.found(10);
+            Bus x = Scene.found(10);
             Scene.feed(x, 1, 20);
             x.put(0, 129, 2);
             x.receive(0, 129, 5);

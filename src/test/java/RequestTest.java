@@ -12,7 +12,7 @@ final class RequestTest {
         Check.finish();
     }
 
-    private static String asked(WireBus x, int type, int request, int value, int index, int length) {
+    private static String asked(Bus x, int type, int request, int value, int index, int length) {
         int t = Scene.ask(x, 0, type, request, value, index, length);
         String[] names = {"WAITS", "DONE", "STALLED", "FAILED"};
         int status = x.transfer(t, 2);
@@ -20,7 +20,7 @@ final class RequestTest {
     }
 
     private static void tellingRequests() {
-        WireBus x = Scene.found(40);
+        Bus x = Scene.found(40);
         Check.due("128 0", asked(x, 128, 0, 0, 0, 2), "DONE 0 0");
         Check.due("128 0, any value", asked(x, 128, 0, 9999, 77, 20), "DONE 0 0");
         Check.due("128 0 of 1", asked(x, 128, 0, 0, 0, 1), "DONE 0");
@@ -46,7 +46,7 @@ final class RequestTest {
     private static void descriptorsAreCutToTheLength() {
         String device = "18 1 0 2 255 0 0 16 52 18 120 86 0 1 0 0 0 1";
         String configuration = "9 2 39 0 1 1 0 128 50 9 4 0 0 3 255 0 0 0 7 5 1 2 8 0 0 7 5 129 2 16 0 0 7 5 130 3 4 0 2";
-        WireBus x = Scene.found(40);
+        Bus x = Scene.found(40);
         for (int length = 1; length <= 60; length++) {
             Check.due("device, " + length, asked(x, 128, 6, 256, 0, length), "DONE " + cut(device, length));
             Check.due("configuration, " + length, asked(x, 128, 6, 512, 0, length), "DONE " + cut(configuration, length));
@@ -68,7 +68,7 @@ final class RequestTest {
     }
 
     private static void scratchIsReadAndWritten() {
-        WireBus x = Scene.found(40);
+        Bus x = Scene.found(40);
         Scene.feed(x, 1, 200);
         Check.due("write all", asked(x, 64, 1, 0, 5, 64).startsWith("DONE 1 2 3"), true);
         for (int i = 0; i < 64; i++) {
@@ -90,7 +90,7 @@ final class RequestTest {
     }
 
     private static void addressIsTakenBehindStatus() {
-        WireBus x = new WireBus(1);
+        Bus x = new Bus(1);
         x.device(5, 64, 0, 0);
         x.attach(5);
         x.frames(4);
@@ -103,7 +103,7 @@ final class RequestTest {
     }
 
     private static void configurations() {
-        WireBus x = Scene.found(40);
+        Bus x = Scene.found(40);
         asked(x, 2, 3, 0, 1, 0);
         Check.due("0 9 2", asked(x, 0, 9, 2, 0, 0), "STALLED");
         Check.due("0 9 257", asked(x, 0, 9, 257, 0, 0), "STALLED");
@@ -120,7 +120,7 @@ final class RequestTest {
     }
 
     private static void haltOfEndpoints() {
-        WireBus x = Scene.found(40);
+        Bus x = Scene.found(40);
         int[] addresses = {1, 129, 130};
         for (int a : addresses) {
             Check.due("2 3 of " + a, asked(x, 2, 3, 0, a, 0), "DONE");
@@ -152,7 +152,7 @@ final class RequestTest {
 
     private static void allOthersAreRefused() {
         for (int type = 0; type < 256; type++) {
-            WireBus x = Scene.found(40);
+            Bus x = Scene.found(40);
             x.end(20);
             for (int request = 0; request < 16; request++) {
                 boolean addressing = type == 0 && request == 5;
@@ -172,7 +172,7 @@ final class RequestTest {
 
     /** The third ERROR leaves the host; the REQUEST's rest is nothing to the next one. */
     private static void aRequestThatIsLeftHalfDone() {
-        WireBus x = Scene.found(40);
+        Bus x = Scene.found(40);
         Scene.feed(x, 1, 60);
         int t = x.control(0, 64 * 256 + 1, 0, 0, 20);
         int p = x.look(1);

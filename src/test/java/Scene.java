@@ -7,8 +7,8 @@ final class Scene {
     }
 
     /** Device 0 is found: SIZE0 16; 1 bulk of 8, 129 bulk of 16, 130 interrupt of 4, each second frame. */
-    static WireBus found(int room) {
-        WireBus x = new WireBus(room);
+    static Bus found(int room) {
+        Bus x = new Bus(room);
         x.device(0, 16, 4660, 22136);
         x.endpoint(0, 1, 8, 0);
         x.endpoint(0, 129, 16, 0);
@@ -17,28 +17,28 @@ final class Scene {
         return x;
     }
 
-    static void find(WireBus x, int d) {
+    static void find(Bus x, int d) {
         x.attach(d);
         runUntilStill(x);
         Check.due("found " + d, x.state(d, 2), 2);
     }
 
     /** Frames until nothing WAITS; at most as many as keep a test short. */
-    static void runUntilStill(WireBus x) {
+    static void runUntilStill(Bus x) {
         for (int i = 0; i < 100 && x.look(3) > 0; i++) {
             x.frames(1);
         }
     }
 
     /** One frame more if the next one's number is odd. */
-    static void goToEvenFrame(WireBus x) {
+    static void goToEvenFrame(Bus x) {
         if (x.look(0) % 2 == 1) {
             x.frames(1);
         }
     }
 
     /** n bytes more on the tape: first, first + 1 .. */
-    static void feed(WireBus x, int first, int n) {
+    static void feed(Bus x, int first, int n) {
         int next = first;
         for (int left = n; left > 0; left -= 20) {
             int[] words = new int[5];
@@ -52,13 +52,13 @@ final class Scene {
     }
 
     /** A control TRANSFER, served at once: its number. */
-    static int ask(WireBus x, int d, int type, int request, int value, int index, int length) {
+    static int ask(Bus x, int d, int type, int request, int value, int index, int length) {
         int t = x.control(d, type * 256 + request, value, index, length);
         runUntilStill(x);
         return t;
     }
 
-    static String bytesOf(WireBus x, int t) {
+    static String bytesOf(Bus x, int t) {
         StringBuilder text = new StringBuilder();
         for (int i = 6; x.transfer(t, i) != WireBus.NONE; i++) {
             text.append(i == 6 ? "" : " ").append(x.transfer(t, i));
@@ -67,7 +67,7 @@ final class Scene {
     }
 
     /** Its answers for what 0 to 5: device, ADDRESS, how it stands, bytes over, asked for, ERRORS. */
-    static String standOf(WireBus x, int t) {
+    static String standOf(Bus x, int t) {
         StringBuilder text = new StringBuilder();
         for (int i = 0; i <= 5; i++) {
             text.append(i == 0 ? "" : " ").append(x.transfer(t, i));
@@ -75,7 +75,7 @@ final class Scene {
         return text.toString();
     }
 
-    static String pointOf(WireBus x, int d, int address) {
+    static String pointOf(Bus x, int d, int address) {
         StringBuilder text = new StringBuilder();
         for (int i = 0; i <= 4; i++) {
             text.append(i == 0 ? "" : " ").append(x.point(d, address, i));
@@ -83,7 +83,7 @@ final class Scene {
         return text.toString();
     }
 
-    static String stateOf(WireBus x, int d) {
+    static String stateOf(Bus x, int d) {
         StringBuilder text = new StringBuilder();
         for (int i = 0; i <= 4; i++) {
             text.append(i == 0 ? "" : " ").append(x.state(d, i));
@@ -91,7 +91,7 @@ final class Scene {
         return text.toString();
     }
 
-    static int[] levels(WireBus x, int p) {
+    static int[] levels(Bus x, int p) {
         int n = x.packet(p, 2);
         int[] levels = new int[n];
         for (int i = 0; i < n; i++) {
@@ -101,7 +101,7 @@ final class Scene {
     }
 
     /** All packets from number p on, as in "SOF 5, IN 1.2, 0:DATA1 7 8, ACK"; a device's number stands ahead of what it sends. */
-    static String talk(WireBus x, int from) {
+    static String talk(Bus x, int from) {
         List<String> words = new ArrayList<>();
         for (int p = from; p < x.look(1); p++) {
             int sender = x.packet(p, 0);
@@ -113,7 +113,7 @@ final class Scene {
     }
 
     /** One frame, and what was on the wire in it. */
-    static String frame(WireBus x) {
+    static String frame(Bus x) {
         int from = x.look(1);
         int sent = x.frames(1);
         Check.due("packets of a frame", sent, x.look(1) - from);

@@ -14,7 +14,7 @@ final class SendTest {
     }
 
     private static void wrongCallsLeaveAllAsItIs() {
-        WireBus x = Scene.found(10);
+        Bus x = Scene.found(10);
         Scene.feed(x, 1, 120);
         int[][] wrong = {{-1, 1, 1}, {6, 1, 1}, {1, 1, 1}, {0, 2, 1}, {0, 0, 1}, {0, 129, 1}, {0, 130, 1}, {0, 257, 1}, {0, -1, 1},
             {0, 1, -1}, {0, 1, 101}, {0, 1, Integer.MIN_VALUE}, {0, 1, Integer.MAX_VALUE}, {Integer.MIN_VALUE, 1, 1}};
@@ -29,14 +29,14 @@ final class SendTest {
         Check.due("20", x.send(0, 1, 20), 7);
         Check.due("none of none", x.send(0, 1, 0), 8);
         Check.due("its bytes", Scene.bytesOf(x, 7).substring(0, 11), "101 102 103");
-        WireBus y = new WireBus(10);
+        Bus y = new Bus(10);
         y.endpoint(0, 1, 8, 0);
         y.attach(0);
         Check.due("not found yet", y.send(0, 1, 0), -1);
     }
 
     private static void bytesGoInPiecesWithToggles() {
-        WireBus x = Scene.found(3);
+        Bus x = Scene.found(3);
         Scene.feed(x, 1, 26);
         int t = x.send(0, 1, 17);
         int next = x.send(0, 1, 8);
@@ -56,7 +56,7 @@ final class SendTest {
     }
 
     private static void noBytesAreOneEmptyData() {
-        WireBus x = Scene.found(3);
+        Bus x = Scene.found(3);
         int t = x.send(0, 1, 0);
         String said = Scene.frame(x);
         Check.due("one", said.substring(said.indexOf(',')), ", OUT 1.1, DATA0, 0:ACK");
@@ -65,7 +65,7 @@ final class SendTest {
     }
 
     private static void anAckThatIsLost() {
-        WireBus x = Scene.found(3);
+        Bus x = Scene.found(3);
         Scene.feed(x, 1, 9);
         int t = x.send(0, 1, 9);
         x.fault(x.look(1) + 3, 0, 0);
@@ -77,7 +77,7 @@ final class SendTest {
     }
 
     private static void fullEndpointSaysNak() {
-        WireBus x = new WireBus(40);
+        Bus x = new Bus(40);
         x.device(0, 64, 0, 0);
         x.endpoint(0, 1, 64, 0);
         Scene.find(x, 0);
@@ -102,7 +102,7 @@ final class SendTest {
     }
 
     private static void haltedAndClosed() {
-        WireBus x = Scene.found(5);
+        Bus x = Scene.found(5);
         Scene.feed(x, 1, 20);
         Scene.ask(x, 0, 2, 3, 0, 1, 0);
         int t = x.send(0, 1, 8);
@@ -124,7 +124,7 @@ final class SendTest {
     }
 
     private static void threeErrorsClose() {
-        WireBus x = Scene.found(5);
+        Bus x = Scene.found(5);
         Scene.feed(x, 1, 16);
         int t = x.send(0, 1, 16);
         int p = x.look(1);
@@ -144,7 +144,7 @@ final class SendTest {
     }
 
     private static void notConfiguredDoesNotAnswer() {
-        WireBus x = Scene.found(5);
+        Bus x = Scene.found(5);
         Scene.ask(x, 0, 0, 9, 0, 0, 0);
         int t = x.send(0, 1, 0);
         String said = Scene.frame(x);
@@ -153,7 +153,7 @@ final class SendTest {
     }
 
     private static void notBehindThreeHundred() {
-        WireBus x = Scene.found(40);
+        Bus x = Scene.found(40);
         for (int i = 6; i < 300; i++) {
             Check.due("send", x.send(0, 1, 0), i);
         }

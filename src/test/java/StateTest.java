@@ -1,7 +1,7 @@
 /** Promise 17: state. */
 final class StateTest {
     public static void main(String[] args) {
-        WireBus x = new WireBus(1);
+        Bus x = new Bus(1);
         int[] wrong = {-1, 6, Integer.MIN_VALUE, Integer.MAX_VALUE};
         for (int d : wrong) {
             for (int what = -1; what < 8; what++) {

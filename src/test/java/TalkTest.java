@@ -15,17 +15,17 @@ final class TalkTest {
     private static final int SETUP = 13;
     private static final int STALL = 14;
 
-    private final WireBus bus;
+    private final Bus bus;
     private final Object device;
 
     /** Device 0 of a bus, CONFIGURED, at address 1, with a SIZE0 of 8. */
     private TalkTest() throws ReflectiveOperationException {
-        bus = new WireBus(40);
+        bus = new Bus(40);
         bus.device(0, 8, 0, 0);
         bus.endpoint(0, 1, 8, 0);
         bus.endpoint(0, 129, 8, 0);
         Scene.find(bus, 0);
-        device = device(bus);
+        device = device(bus.bare());
     }
 
     public static void main(String[] args) throws ReflectiveOperationException {

@@ -9,13 +9,13 @@ final class TapeTest {
         Check.finish();
     }
 
-    private static String tape(WireBus x, int n) {
+    private static String tape(Bus x, int n) {
         int t = x.send(0, 1, n);
         return t == WireBus.NONE ? "none" : Scene.bytesOf(x, t);
     }
 
     private static void bytesComeHighestFirst() {
-        WireBus x = Scene.found(10);
+        Bus x = Scene.found(10);
         x.feed(0x01020304, 0x05060708, -1, 0x80000000, 0x7F00FF10);
         Check.due("end(20)", x.end(20), 20);
         Check.due("tape", tape(x, 20), "1 2 3 4 5 6 7 8 255 255 255 255 128 0 0 0 127 0 255 16");
@@ -26,7 +26,7 @@ final class TapeTest {
     }
 
     private static void readyBytesAreZeroFirstAndBehindEnd() {
-        WireBus x = Scene.found(10);
+        Bus x = Scene.found(10);
         Check.due("end(3)", x.end(3), 3);
         x.feed(-1, -1, -1, -1, -1);
         Check.due("end(1)", x.end(1), 4);
@@ -39,7 +39,7 @@ final class TapeTest {
     }
 
     private static void wrongEndsLeaveAllAsItIs() {
-        WireBus x = Scene.found(10);
+        Bus x = Scene.found(10);
         x.feed(0x01020304, 0, 0, 0, 0);
         Check.due("end(-1)", x.end(-1), -1);
         Check.due("end(21)", x.end(21), -1);
@@ -51,7 +51,7 @@ final class TapeTest {
     }
 
     private static void tapeHasRoomForTwoHundred() {
-        WireBus x = Scene.found(10);
+        Bus x = Scene.found(10);
         for (int i = 1; i <= 9; i++) {
             Check.due("end(20)", x.end(20), 20 * i);
         }
@@ -67,7 +67,7 @@ final class TapeTest {
     }
 
     private static void tapeIsUsedRoundAndRound() {
-        WireBus x = Scene.found(10);
+        Bus x = Scene.found(10);
         for (int i = 0; i < 12; i++) {
             Scene.feed(x, 10 * i, 60);
             StringBuilder wanted = new StringBuilder();

@@ -10,7 +10,7 @@ final class TransferTest {
     }
 
     private static void wrongNumbers() {
-        WireBus x = Scene.found(10);
+        Bus x = Scene.found(10);
         int[] wrong = {-1, 6, 7, 339, 340, 1000, Integer.MIN_VALUE, Integer.MAX_VALUE};
         for (int t : wrong) {
             for (int what = -1; what < 8; what++) {
@@ -24,7 +24,7 @@ final class TransferTest {
     }
 
     private static void ofSend() {
-        WireBus x = Scene.found(1);
+        Bus x = Scene.found(1);
         Scene.feed(x, 1, 20);
         int t = x.send(0, 1, 10);
         Check.due("WAITS", Scene.standOf(x, t), "0 1 0 0 10 0");
@@ -41,7 +41,7 @@ final class TransferTest {
     }
 
     private static void ofReceive() {
-        WireBus x = Scene.found(1);
+        Bus x = Scene.found(1);
         Scene.feed(x, 200, 20);
         x.put(0, 129, 20);
         int t = x.receive(0, 129, 30);
@@ -57,7 +57,7 @@ final class TransferTest {
     }
 
     private static void ofControl() {
-        WireBus x = Scene.found(1);
+        Bus x = Scene.found(1);
         Scene.feed(x, 50, 20);
         int out = x.control(0, 64 * 256 + 1, 0, 0, 17);
         int in = x.control(0, 192 * 256 + 1, 0, 0, 99);
@@ -78,7 +78,7 @@ final class TransferTest {
     }
 
     private static void addressStaysWhenAnotherDeviceIsThere() {
-        WireBus x = Scene.found(10);
+        Bus x = Scene.found(10);
         int t = x.receive(0, 129, 9);
         x.detach(0);
         x.device(0, 8, 0, 0);

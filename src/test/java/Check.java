@@ -3,8 +3,24 @@ final class Check {
     private static final int MOST_SHOWN = 40;
     private static int asked = 0;
     private static int wrong = 0;
+    private static String heading = "";
+    private static int askedAhead = 0;
 
     private Check() {
+    }
+
+    /** What follows is the test of this sentence of the document, which stands ahead of each wrong answer. */
+    static void of(String promise, String sentence) {
+        endHeading();
+        heading = promise + ", \"" + sentence + "\": ";
+        askedAhead = asked;
+    }
+
+    private static void endHeading() {
+        if (!heading.isEmpty() && asked == askedAhead) {
+            wrong++;
+            System.out.println(heading + "nothing was asked");
+        }
     }
 
     static void due(String call, long got, long want) {
@@ -20,12 +36,13 @@ final class Check {
         if (!got.equals(want)) {
             wrong++;
             if (wrong <= MOST_SHOWN) {
-                System.out.println(call + " answered " + got + ", due is " + want);
+                System.out.println(heading + call + " answered " + got + ", due is " + want);
             }
         }
     }
 
     static void finish() {
+        endHeading();
         if (asked == 0) {
             System.out.println("nothing was asked");
             System.exit(1);

@@ -13,10 +13,6 @@ final class ControlTest {
         Check.finish();
     }
 
-    private static String rest(String said) {
-        return said.substring(said.indexOf(',') + 2);
-    }
-
     private static void wrongCallsLeaveAllAsItIs() {
         Bus x = Scene.found(10);
         Scene.feed(x, 1, 50);
@@ -42,7 +38,7 @@ final class ControlTest {
     private static void eightBytesOfSetup() {
         Bus x = Scene.found(1);
         x.control(0, 0x7F_C1_02, 0x1_0304, -2, 0x25);
-        Check.due("SETUP", rest(Scene.frame(x)), "SETUP 1.0, DATA0 193 2 4 3 254 255 37 0, 0:ACK");
+        Check.due("SETUP", Scene.served(x), "SETUP 1.0, DATA0 193 2 4 3 254 255 37 0, 0:ACK");
     }
 
     private static void bytesToTheHost() {
@@ -50,20 +46,20 @@ final class ControlTest {
         Scene.feed(x, 100, 64);
         Scene.ask(x, 0, 64, 1, 0, 0, 64);
         int t = x.control(0, 192 * 256 + 1, 46, 0, 50);
-        Check.due("a short one ends it", rest(Scene.frame(x)), "SETUP 1.0, DATA0 192 1 46 0 0 0 50 0, 0:ACK"
+        Check.due("a short one ends it", Scene.served(x), "SETUP 1.0, DATA0 192 1 46 0 0 0 50 0, 0:ACK"
             + ", IN 1.0, 0:DATA1 146 147 148 149 150 151 152 153 154 155 156 157 158 159 160 161, ACK"
             + ", IN 1.0, 0:DATA0 162 163, ACK, OUT 1.0, DATA1, 0:ACK");
         Check.due("stand", Scene.standOf(x, t), "0 0 1 18 50 0");
         t = x.control(0, 192 * 256 + 1, 48, 0, 50);
-        Check.due("an empty one ends it", rest(Scene.frame(x)), "SETUP 1.0, DATA0 192 1 48 0 0 0 50 0, 0:ACK"
+        Check.due("an empty one ends it", Scene.served(x), "SETUP 1.0, DATA0 192 1 48 0 0 0 50 0, 0:ACK"
             + ", IN 1.0, 0:DATA1 148 149 150 151 152 153 154 155 156 157 158 159 160 161 162 163, ACK"
             + ", IN 1.0, 0:DATA0, ACK, OUT 1.0, DATA1, 0:ACK");
         Check.due("stand", Scene.standOf(x, t), "0 0 1 16 50 0");
         t = x.control(0, 192 * 256 + 1, 48, 0, 16);
-        Check.due("none behind all", rest(Scene.frame(x)), "SETUP 1.0, DATA0 192 1 48 0 0 0 16 0, 0:ACK"
+        Check.due("none behind all", Scene.served(x), "SETUP 1.0, DATA0 192 1 48 0 0 0 16 0, 0:ACK"
             + ", IN 1.0, 0:DATA1 148 149 150 151 152 153 154 155 156 157 158 159 160 161 162 163, ACK, OUT 1.0, DATA1, 0:ACK");
         t = x.control(0, 192 * 256 + 1, 64, 0, 3);
-        Check.due("none at all", rest(Scene.frame(x)), "SETUP 1.0, DATA0 192 1 64 0 0 0 3 0, 0:ACK"
+        Check.due("none at all", Scene.served(x), "SETUP 1.0, DATA0 192 1 64 0 0 0 3 0, 0:ACK"
             + ", IN 1.0, 0:DATA1, ACK, OUT 1.0, DATA1, 0:ACK");
         Check.due("stand", Scene.standOf(x, t), "0 0 1 0 3 0");
     }
@@ -73,7 +69,7 @@ final class ControlTest {
         Scene.feed(x, 1, 30);
         int t = x.control(0, 64 * 256 + 1, 40, 7, 18);
         Check.due("gone from the tape", x.look(5), 12);
-        Check.due("said", rest(Scene.frame(x)), "SETUP 1.0, DATA0 64 1 40 0 7 0 18 0, 0:ACK"
+        Check.due("said", Scene.served(x), "SETUP 1.0, DATA0 64 1 40 0 7 0 18 0, 0:ACK"
             + ", OUT 1.0, DATA1 1 2 3 4 5 6 7 8 9 10 11 12 13 14 15 16, 0:ACK, OUT 1.0, DATA0 17 18, 0:ACK, IN 1.0, 0:DATA1, ACK");
         Check.due("stand", Scene.standOf(x, t), "0 0 1 18 18 0");
         for (int i = 0; i < 64; i++) {
@@ -82,14 +78,14 @@ final class ControlTest {
         x.control(0, 64 * 256 + 1, 0, 0, 10);
         x.frames(1);
         t = x.control(0, 64 * 256 + 1, 64, 0, 0);
-        Check.due("of no bytes", rest(Scene.frame(x)), "SETUP 1.0, DATA0 64 1 64 0 0 0 0 0, 0:ACK, IN 1.0, 0:DATA1, ACK");
+        Check.due("of no bytes", Scene.served(x), "SETUP 1.0, DATA0 64 1 64 0 0 0 0 0, 0:ACK, IN 1.0, 0:DATA1, ACK");
         Check.due("stand", Scene.standOf(x, t), "0 0 1 0 0 0");
     }
 
     private static void noBytes() {
         Bus x = Scene.found(10);
         int t = x.control(0, 128 * 256 + 6, 256, 0, 0);
-        Check.due("to the host, of length 0", rest(Scene.frame(x)), "SETUP 1.0, DATA0 128 6 0 1 0 0 0 0, 0:ACK, IN 1.0, 0:DATA1, ACK");
+        Check.due("to the host, of length 0", Scene.served(x), "SETUP 1.0, DATA0 128 6 0 1 0 0 0 0, 0:ACK, IN 1.0, 0:DATA1, ACK");
         Check.due("stand", Scene.standOf(x, t), "0 0 1 0 0 0");
     }
 
@@ -97,14 +93,14 @@ final class ControlTest {
         Bus x = Scene.found(10);
         Scene.feed(x, 1, 70);
         int t = x.control(0, 128 * 256 + 6, 257, 0, 8);
-        Check.due("IN", rest(Scene.frame(x)), "SETUP 1.0, DATA0 128 6 1 1 0 0 8 0, 0:ACK, IN 1.0, 0:STALL");
+        Check.due("IN", Scene.served(x), "SETUP 1.0, DATA0 128 6 1 1 0 0 8 0, 0:ACK, IN 1.0, 0:STALL");
         Check.due("STALLED", Scene.standOf(x, t), "0 0 2 0 8 0");
         t = x.control(0, 64 * 256 + 1, 63, 0, 2);
-        Check.due("OUT", rest(Scene.frame(x)), "SETUP 1.0, DATA0 64 1 63 0 0 0 2 0, 0:ACK, OUT 1.0, DATA1 1 2, 0:STALL");
+        Check.due("OUT", Scene.served(x), "SETUP 1.0, DATA0 64 1 63 0 0 0 2 0, 0:ACK, OUT 1.0, DATA1 1 2, 0:STALL");
         Check.due("STALLED", Scene.standOf(x, t), "0 0 2 0 2 0");
         Check.due("its bytes", Scene.bytesOf(x, t), "1 2");
         t = x.control(0, 9, 2, 0, 0);
-        Check.due("STATUS", rest(Scene.frame(x)), "SETUP 1.0, DATA0 0 9 2 0 0 0 0 0, 0:ACK, IN 1.0, 0:STALL");
+        Check.due("STATUS", Scene.served(x), "SETUP 1.0, DATA0 0 9 2 0 0 0 0 0, 0:ACK, IN 1.0, 0:STALL");
         Check.due("STALLED", Scene.standOf(x, t), "0 0 2 0 0 0");
         Check.due("pipes stay open", x.point(0, 1, 4) + x.point(0, 129, 4), 2);
         t = x.control(0, 128 * 256 + 8, 0, 0, 1);
@@ -135,7 +131,7 @@ final class ControlTest {
         x.fault(p + 6, 0, 0);
         x.fault(p + 9, 0, 0);
         x.fault(p + 10, 0, 0);
-        Check.due("three behind each other", rest(Scene.frame(x)), "SETUP 1.0, DATA0 64 1 2 0 0 0 18 0, 0:ACK"
+        Check.due("three behind each other", Scene.served(x), "SETUP 1.0, DATA0 64 1 2 0 0 0 18 0, 0:ACK"
             + ", OUT 1.0, DATA1 1 2 3 4 5 6 7 8 9 10 11 12 13 14 15 16, 0:lost ACK"
             + ", OUT 1.0, DATA1 1 2 3 4 5 6 7 8 9 10 11 12 13 14 15 16, 0:lost ACK"
             + ", lost OUT 1.0, DATA1 1 2 3 4 5 6 7 8 9 10 11 12 13 14 15 16");
@@ -151,7 +147,7 @@ final class ControlTest {
         x.fault(p + 2, 0, 0);
         x.fault(p + 5, 3, 4);
         x.fault(p + 6, 0, 0);
-        Check.due("three lost ones", rest(Scene.frame(x)), "SETUP 1.0, lost DATA0 128 8 0 0 0 0 1 0"
+        Check.due("three lost ones", Scene.served(x), "SETUP 1.0, lost DATA0 128 8 0 0 0 0 1 0"
             + ", SETUP 1.0, DATA0 128 8 0 0 0 0 1 0, 0:changed kind 2, lost SETUP 1.0, DATA0 128 8 0 0 0 0 1 0");
         Check.due("FAILED", Scene.standOf(x, t), "0 0 3 0 1 3");
     }

@@ -15,10 +15,6 @@ final class FramesTest {
         Check.finish();
     }
 
-    private static String rest(String said) {
-        return said.indexOf(',') < 0 ? "" : said.substring(said.indexOf(',') + 2);
-    }
-
     private static void wrongNumbers() {
         Bus x = new Bus(1);
         int[] wrong = {0, -1, 201, Integer.MIN_VALUE, Integer.MAX_VALUE};
@@ -76,12 +72,12 @@ final class FramesTest {
         x.send(0, 1, 8);
         x.control(0, 128 * 256 + 8, 0, 0, 1);
         int t = x.receive(0, 130, 8);
-        Check.due("even", rest(Scene.frame(x)), "IN 1.2, 0:DATA0 1 2 3 4, ACK"
+        Check.due("even", Scene.served(x), "IN 1.2, 0:DATA0 1 2 3 4, ACK"
             + ", SETUP 1.0, DATA0 128 8 0 0 0 0 1 0, 0:ACK, IN 1.0, 0:DATA1 1, ACK, OUT 1.0, DATA1, 0:ACK"
             + ", OUT 1.1, DATA0 10 11 12 13 14 15 16 17, 0:ACK");
         Check.due("one each", Scene.standOf(x, t), "0 130 0 4 8 0");
-        Check.due("odd", rest(Scene.frame(x)), "");
-        Check.due("even again", rest(Scene.frame(x)), "IN 1.2, 0:DATA1 5 6 7 8, ACK");
+        Check.due("odd", Scene.served(x), "");
+        Check.due("even again", Scene.served(x), "IN 1.2, 0:DATA1 5 6 7 8, ACK");
         Check.due("DONE", Scene.standOf(x, t), "0 130 1 8 8 0");
     }
 
@@ -93,17 +89,17 @@ final class FramesTest {
         x.receive(0, 130, 8);
         int n = x.look(0);
         Check.due("even", Scene.frame(x), "SOF " + n + ", IN 1.2, 0:NAK, SETUP 1.0, DATA0 128 8 0 0 0 0 1 0, 0:ACK");
-        Check.due("odd", rest(Scene.frame(x)), "IN 1.0, 0:DATA1 1, ACK, OUT 1.0, DATA1, 0:ACK");
-        Check.due("even again", rest(Scene.frame(x)), "IN 1.2, 0:NAK, OUT 1.1, DATA0, 0:ACK");
+        Check.due("odd", Scene.served(x), "IN 1.0, 0:DATA1 1, ACK, OUT 1.0, DATA1, 0:ACK");
+        Check.due("even again", Scene.served(x), "IN 1.2, 0:NAK, OUT 1.1, DATA0, 0:ACK");
         x.receive(0, 129, 1);
-        Check.due("odd again", rest(Scene.frame(x)), "IN 1.1, 0:NAK");
+        Check.due("odd again", Scene.served(x), "IN 1.1, 0:NAK");
         Bus y = withInterrupts();
         while (y.look(0) % 15 != 0) {
             y.frames(1);
         }
         y.receive(1, 129, 2);
         y.receive(0, 132, 1);
-        Check.due("by devices", rest(Scene.frame(y)), "IN 1.4, 0:NAK, IN 2.1, 1:NAK");
+        Check.due("by devices", Scene.served(y), "IN 1.4, 0:NAK, IN 2.1, 1:NAK");
     }
 
     private static void controlUntilItDoesNotWait() {
@@ -112,9 +108,9 @@ final class FramesTest {
         x.control(0, 128 * 256, 0, 0, 2);
         int p = x.look(1);
         x.fault(p + 4, 0, 0);
-        Check.due("an ERROR at once again, then the next one", rest(Scene.frame(x)), "SETUP 1.0, DATA0 128 8 0 0 0 0 1 0, 0:ACK, lost IN 1.0"
+        Check.due("an ERROR at once again, then the next one", Scene.served(x), "SETUP 1.0, DATA0 128 8 0 0 0 0 1 0, 0:ACK, lost IN 1.0"
             + ", IN 1.0, 0:DATA1 1, ACK, OUT 1.0, DATA1, 0:ACK, SETUP 1.0, DATA0 128 0 0 0 0 0 2 0, 0:ACK, IN 1.0, 0:DATA1 0 0, ACK");
-        Check.due("the rest", rest(Scene.frame(x)), "OUT 1.0, DATA1, 0:ACK");
+        Check.due("the rest", Scene.served(x), "OUT 1.0, DATA1, 0:ACK");
     }
 
     private static Bus withBulk(int room) {
@@ -205,8 +201,8 @@ final class FramesTest {
         x.receive(0, 129, 3);
         x.send(0, 1, 0);
         x.send(0, 1, 0);
-        Check.due("NAK ends it for this frame", rest(Scene.frame(x)), "IN 1.1, 0:NAK, OUT 1.1, DATA0, 0:ACK, OUT 1.1, DATA1, 0:ACK");
-        Check.due("asked again in the next one", rest(Scene.frame(x)), "IN 1.1, 0:NAK");
+        Check.due("NAK ends it for this frame", Scene.served(x), "IN 1.1, 0:NAK, OUT 1.1, DATA0, 0:ACK, OUT 1.1, DATA1, 0:ACK");
+        Check.due("asked again in the next one", Scene.served(x), "IN 1.1, 0:NAK");
     }
 
     private static void earliestOfAPipe() {

@@ -17,6 +17,46 @@ final class Scene {
         return x;
     }
 
+    static Bus found3() {
+        return found(3);
+    }
+
+    /**
+     * Each STATE once: 0 found as above, 1 absent and told, 2 absent after use, 3 to be found and ADDRESSED, 4 DEFAULT, 5 absent
+     * as at first; bytes ready, on the tape and at ENDPOINTS, TRANSFERS that WAIT, FAULTS that wait.
+     */
+    static Bus busy() {
+        Bus x = found(3);
+        x.device(1, 32, 7, 8);
+        x.endpoint(1, 1, 8, 0);
+        x.endpoint(1, 129, 8, 0);
+        x.device(2, 8, 1, 2);
+        x.endpoint(2, 1, 16, 0);
+        x.endpoint(2, 130, 5, 3);
+        find(x, 2);
+        feed(x, 200, 20);
+        ask(x, 2, 64, 1, 3, 0, 4);
+        x.send(2, 1, 5);
+        x.put(2, 130, 6);
+        x.frames(1);
+        x.detach(2);
+        x.attach(3);
+        for (int i = 0; i < 20 && x.state(3, 0) != 2; i++) {
+            x.frames(1);
+        }
+        x.attach(4);
+        feed(x, 1, 70);
+        x.put(0, 129, 9);
+        x.send(0, 1, 20);
+        x.receive(0, 129, 40);
+        x.control(0, 128 * 256 + 8, 0, 0, 1);
+        x.fault(x.look(1) + 5, 0, 0);
+        x.fault(x.look(1) + 9, 1, 3);
+        x.fault(10000, 3, 1);
+        x.feed(0x11223344, 0x55667788, 0x01020304, -1, 0x7F000001);
+        return x;
+    }
+
     static void find(Bus x, int d) {
         x.attach(d);
         runUntilStill(x);
@@ -110,6 +150,12 @@ final class Scene {
                 + (x.packet(p, 3) == 2 ? "kind " + x.packet(p, 1) : Levels.say(levels(x, p))));
         }
         return String.join(", ", words);
+    }
+
+    /** One frame, and what was on the wire in it behind its SOF. */
+    static String served(Bus x) {
+        String said = frame(x);
+        return said.indexOf(',') < 0 ? "" : said.substring(said.indexOf(',') + 2);
     }
 
     /** One frame, and what was on the wire in it. */

@@ -40,14 +40,14 @@ final class SendTest {
         Scene.feed(x, 1, 26);
         int t = x.send(0, 1, 17);
         int next = x.send(0, 1, 8);
-        String said = Scene.frame(x);
-        Check.due("three pieces", said.substring(said.indexOf(',')), ", OUT 1.1, DATA0 1 2 3 4 5 6 7 8, 0:ACK"
+        String said = Scene.served(x);
+        Check.due("three pieces", said, "OUT 1.1, DATA0 1 2 3 4 5 6 7 8, 0:ACK"
             + ", OUT 1.1, DATA1 9 10 11 12 13 14 15 16, 0:ACK, OUT 1.1, DATA0 17, 0:ACK");
         Check.due("DONE", Scene.standOf(x, t), "0 1 1 17 17 0");
         Check.due("the next one WAITS", Scene.standOf(x, next), "0 1 0 0 8 0");
         Check.due("toggles", Scene.pointOf(x, 0, 1), "1 0 17 1 1");
-        said = Scene.frame(x);
-        Check.due("the toggle goes on", said.substring(said.indexOf(',')), ", OUT 1.1, DATA1 18 19 20 21 22 23 24 25, 0:ACK");
+        said = Scene.served(x);
+        Check.due("the toggle goes on", said, "OUT 1.1, DATA1 18 19 20 21 22 23 24 25, 0:ACK");
         Check.due("DONE without an empty one behind", Scene.standOf(x, next), "0 1 1 8 8 0");
         for (int i = 1; i <= 25; i++) {
             Check.due("take", x.take(0, 1), i);
@@ -58,8 +58,8 @@ final class SendTest {
     private static void noBytesAreOneEmptyData() {
         Bus x = Scene.found(3);
         int t = x.send(0, 1, 0);
-        String said = Scene.frame(x);
-        Check.due("one", said.substring(said.indexOf(',')), ", OUT 1.1, DATA0, 0:ACK");
+        String said = Scene.served(x);
+        Check.due("one", said, "OUT 1.1, DATA0, 0:ACK");
         Check.due("DONE", Scene.standOf(x, t), "0 1 1 0 0 0");
         Check.due("toggles", Scene.pointOf(x, 0, 1), "1 0 0 1 1");
     }
@@ -69,8 +69,8 @@ final class SendTest {
         Scene.feed(x, 1, 9);
         int t = x.send(0, 1, 9);
         x.fault(x.look(1) + 3, 0, 0);
-        String said = Scene.frame(x);
-        Check.due("sent again, let fall", said.substring(said.indexOf(',')), ", OUT 1.1, DATA0 1 2 3 4 5 6 7 8, 0:lost ACK"
+        String said = Scene.served(x);
+        Check.due("sent again, let fall", said, "OUT 1.1, DATA0 1 2 3 4 5 6 7 8, 0:lost ACK"
             + ", OUT 1.1, DATA0 1 2 3 4 5 6 7 8, 0:ACK, OUT 1.1, DATA1 9, 0:ACK");
         Check.due("DONE", Scene.standOf(x, t), "0 1 1 9 9 0");
         Check.due("came once", Scene.pointOf(x, 0, 1), "0 0 9 0 1");
@@ -89,8 +89,8 @@ final class SendTest {
         Check.due("255 came", x.point(0, 1, 2), 255);
         Scene.feed(x, 7, 3);
         int t = x.send(0, 1, 2);
-        String said = Scene.frame(x);
-        Check.due("no room for both, once a frame", said.substring(said.indexOf(',')), ", OUT 1.1, DATA0 7 8, 0:NAK");
+        String said = Scene.served(x);
+        Check.due("no room for both, once a frame", said, "OUT 1.1, DATA0 7 8, 0:NAK");
         Check.due("WAITS", Scene.standOf(x, t), "0 1 0 0 2 0");
         x.take(0, 1);
         x.frames(1);
@@ -107,8 +107,8 @@ final class SendTest {
         Scene.ask(x, 0, 2, 3, 0, 1, 0);
         int t = x.send(0, 1, 8);
         int later = x.send(0, 1, 8);
-        String said = Scene.frame(x);
-        Check.due("STALL", said.substring(said.indexOf(',')), ", OUT 1.1, DATA0 1 2 3 4 5 6 7 8, 0:STALL");
+        String said = Scene.served(x);
+        Check.due("STALL", said, "OUT 1.1, DATA0 1 2 3 4 5 6 7 8, 0:STALL");
         Check.due("STALLED", Scene.standOf(x, t), "0 1 2 0 8 0");
         Check.due("closed", Scene.pointOf(x, 0, 1), "0 1 0 0 2");
         Check.due("no more", x.send(0, 1, 0), -1);
@@ -132,8 +132,8 @@ final class SendTest {
         x.fault(p + 4, 0, 0);
         x.fault(p + 8, 0, 0);
         x.fault(p + 10, 0, 0);
-        String said = Scene.frame(x);
-        Check.due("two, then an answer, then two more", said.substring(said.indexOf(',')), ", lost OUT 1.1, DATA0 1 2 3 4 5 6 7 8"
+        String said = Scene.served(x);
+        Check.due("two, then an answer, then two more", said, "lost OUT 1.1, DATA0 1 2 3 4 5 6 7 8"
             + ", OUT 1.1, lost DATA0 1 2 3 4 5 6 7 8, OUT 1.1, DATA0 1 2 3 4 5 6 7 8, 0:ACK"
             + ", lost OUT 1.1, DATA1 9 10 11 12 13 14 15 16, lost OUT 1.1, DATA1 9 10 11 12 13 14 15 16");
         Check.due("two ERRORS", Scene.standOf(x, t), "0 1 0 8 16 2");
@@ -147,8 +147,8 @@ final class SendTest {
         Bus x = Scene.found(5);
         Scene.ask(x, 0, 0, 9, 0, 0, 0);
         int t = x.send(0, 1, 0);
-        String said = Scene.frame(x);
-        Check.due("no answer", said.substring(said.indexOf(',')), ", OUT 1.1, DATA0, OUT 1.1, DATA0, OUT 1.1, DATA0");
+        String said = Scene.served(x);
+        Check.due("no answer", said, "OUT 1.1, DATA0, OUT 1.1, DATA0, OUT 1.1, DATA0");
         Check.due("FAILED", Scene.standOf(x, t), "0 1 3 0 0 3");
     }
 

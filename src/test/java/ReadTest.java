@@ -1,6 +1,3 @@
-import java.lang.reflect.Constructor;
-import java.lang.reflect.Field;
-import java.lang.reflect.Method;
 import java.util.Random;
 
 /**
@@ -10,13 +7,10 @@ import java.util.Random;
 final class ReadTest {
     private final Object coder;
     private final Object packet;
-    private final Method decode;
 
     private ReadTest() throws ReflectiveOperationException {
-        coder = make("WireBus$Coder");
-        packet = make("WireBus$Packet");
-        decode = coder.getClass().getDeclaredMethod("decode", packet.getClass());
-        decode.setAccessible(true);
+        coder = Inside.make("Coder");
+        packet = Inside.make("Packet");
     }
 
     public static void main(String[] args) throws ReflectiveOperationException {
@@ -29,36 +23,23 @@ final class ReadTest {
         Check.finish();
     }
 
-    private static Object make(String name) throws ReflectiveOperationException {
-        Constructor<?> c = Class.forName(name).getDeclaredConstructor();
-        c.setAccessible(true);
-        return c.newInstance();
-    }
-
-    private static Field field(Object of, String name) throws ReflectiveOperationException {
-        Field f = of.getClass().getDeclaredField(name);
-        f.setAccessible(true);
-        return f;
-    }
-
     private boolean reads(int... levels) throws ReflectiveOperationException {
-        int[] row = (int[]) field(coder, "levels").get(coder);
-        System.arraycopy(levels, 0, row, 0, levels.length);
-        field(coder, "length").setInt(coder, levels.length);
-        return (Boolean) decode.invoke(coder, packet);
+        System.arraycopy(levels, 0, Inside.row(coder, "levels"), 0, levels.length);
+        Inside.set(coder, "length", levels.length);
+        return (Boolean) Inside.call(coder, "decode", packet.getClass(), packet);
     }
 
     private String said() throws ReflectiveOperationException {
         StringBuilder text = new StringBuilder();
-        text.append(field(packet, "kind").getInt(packet)).append(" ").append(field(packet, "number").getInt(packet));
-        int[] bytes = (int[]) field(packet, "bytes").get(packet);
-        for (int i = 0; i < field(packet, "length").getInt(packet); i++) {
-            text.append(" ").append(bytes[i]);
+        text.append(Inside.number(packet, "kind")).append(" ").append(Inside.number(packet, "number"));
+        for (int i = 0; i < Inside.number(packet, "length"); i++) {
+            text.append(" ").append(Inside.row(packet, "bytes")[i]);
         }
         return text.toString();
     }
 
     private void allThatCanBeSent() throws ReflectiveOperationException {
+        Check.of("Terms I, Promise 14", "READ: levels are a PACKET if they are one that can be sent by these rules");
         for (int number = 0; number < 2048; number++) {
             for (int kind : new int[] {1, 9, 13}) {
                 Check.due("token", reads(Levels.token(kind, number & 127, number >> 7)), true);
@@ -90,6 +71,7 @@ final class ReadTest {
     }
 
     private void rowsThatAreNoPackets() throws ReflectiveOperationException {
+        Check.of("Terms I, Promise 14", "READ: .. whole bytes, KIND and complement, as many bytes as the KIND has, CHECK");
         for (int kind = 0; kind < 16; kind++) {
             boolean handshake = kind == 2 || kind == 10 || kind == 14;
             boolean numbered = kind == 1 || kind == 5 || kind == 9 || kind == 13;
@@ -132,6 +114,7 @@ final class ReadTest {
     }
 
     private void tails() throws ReflectiveOperationException {
+        Check.of("Terms I, Promise 14", "READ: .. J and K up to E E J at the end");
         int[] ack = Levels.handshake(2);
         Check.due("ACK", reads(ack), true);
         for (int i = 0; i < ack.length; i++) {
@@ -150,6 +133,7 @@ final class ReadTest {
     }
 
     private void stuffing() throws ReflectiveOperationException {
+        Check.of("Terms I, Promise 14", "READ: .. no bits behind but as said");
         int[] bytes = {255, 255, 0};
         int[] right = Levels.data(3, bytes);
         Check.due("right", reads(right), true);
@@ -184,6 +168,7 @@ final class ReadTest {
 
     /** The reason for this test, over many TOKENS and SOFs. */
     private void oneChangedLevel() throws ReflectiveOperationException {
+        Check.of("Terms I, Promise 14", "READ: .. What is not is as if nothing had come: whatever level is another one");
         for (int number = 0; number < 2048; number += 3) {
             int[] levels = number % 2 == 0 ? Levels.startOfFrame(number) : Levels.token(9, number & 127, number >> 7);
             for (int i = 0; i < levels.length; i++) {

@@ -1,8 +1,3 @@
-import java.lang.reflect.Array;
-import java.lang.reflect.Constructor;
-import java.lang.reflect.Field;
-import java.lang.reflect.Method;
-
 /** Terms II packet by packet: a device of the class hears what this host never says, and answers as the document tells. */
 final class TalkTest {
     private static final int OUT = 1;
@@ -25,7 +20,7 @@ final class TalkTest {
         bus.endpoint(0, 1, 8, 0);
         bus.endpoint(0, 129, 8, 0);
         Scene.find(bus, 0);
-        device = device(bus.bare());
+        device = Inside.device(bus.bare(), 0);
     }
 
     public static void main(String[] args) throws ReflectiveOperationException {
@@ -39,54 +34,17 @@ final class TalkTest {
         statusToTheHost();
         addressBehindAck();
         endpoints();
+        lengthNone();
+        bytesAsTheyWere();
         Check.finish();
     }
 
-    private static Object device(WireBus bus) throws ReflectiveOperationException {
-        Object wire = field(bus, "wire").get(bus);
-        return Array.get(field(wire, "devices").get(wire), 0);
-    }
-
-    private static Field field(Object of, String name) throws ReflectiveOperationException {
-        Field f = of.getClass().getDeclaredField(name);
-        f.setAccessible(true);
-        return f;
-    }
-
-    private static Object packet(int kind, int number, int... bytes) throws ReflectiveOperationException {
-        Constructor<?> c = Class.forName("WireBus$Packet").getDeclaredConstructor();
-        c.setAccessible(true);
-        Object p = c.newInstance();
-        field(p, "kind").setInt(p, kind);
-        field(p, "number").setInt(p, number);
-        field(p, "length").setInt(p, bytes.length);
-        System.arraycopy(bytes, 0, (int[]) field(p, "bytes").get(p), 0, bytes.length);
-        return p;
-    }
-
-    /** What it answers: "" for nothing, else the KIND and the bytes. */
-    private static String hear(Object device, Object p) throws ReflectiveOperationException {
-        Method hear = device.getClass().getDeclaredMethod("hear", Class.forName("WireBus$Packet"));
-        hear.setAccessible(true);
-        hear.invoke(device, p);
-        if (!field(device, "answers").getBoolean(device)) {
-            return "";
-        }
-        field(device, "answers").setBoolean(device, false);
-        Object reply = field(device, "reply").get(device);
-        StringBuilder text = new StringBuilder().append(field(reply, "kind").getInt(reply));
-        for (int i = 0; i < field(reply, "length").getInt(reply); i++) {
-            text.append(" ").append(((int[]) field(reply, "bytes").get(reply))[i]);
-        }
-        return text.toString();
-    }
-
     private String token(int kind, int endpoint) throws ReflectiveOperationException {
-        return hear(device, packet(kind, 1 + 128 * endpoint));
+        return Inside.hear(device, Inside.packet(kind, 1 + 128 * endpoint));
     }
 
     private String data(int kind, int... bytes) throws ReflectiveOperationException {
-        return hear(device, packet(kind, 0, bytes));
+        return Inside.hear(device, Inside.packet(kind, 0, bytes));
     }
 
     private String out(int endpoint, int kind, int... bytes) throws ReflectiveOperationException {
@@ -94,7 +52,7 @@ final class TalkTest {
     }
 
     private String ack() throws ReflectiveOperationException {
-        return hear(device, packet(ACK, 0));
+        return Inside.hear(device, Inside.packet(ACK, 0));
     }
 
     private void request(int type, int request, int value, int index, int length) throws ReflectiveOperationException {
@@ -103,35 +61,37 @@ final class TalkTest {
     }
 
     private static void noRequestYet() throws ReflectiveOperationException {
+        Check.of("Terms II, Promise 11", "no REQUEST yet: NAK; attach: no REQUEST");
         WireBus x = new WireBus(1);
         x.attach(0);
-        Object fresh = device(x);
-        Check.due("IN", hear(fresh, packet(IN, 0)), "" + NAK);
-        hear(fresh, packet(OUT, 0));
-        Check.due("OUT", hear(fresh, packet(DATA1, 0)), "" + NAK);
-        Check.due("another address", hear(fresh, packet(IN, 1)), "");
+        Object fresh = Inside.device(x, 0);
+        Check.due("IN", Inside.hear(fresh, Inside.packet(IN, 0)), "" + NAK);
+        Inside.hear(fresh, Inside.packet(OUT, 0));
+        Check.due("OUT", Inside.hear(fresh, Inside.packet(DATA1, 0)), "" + NAK);
+        Check.due("another address", Inside.hear(fresh, Inside.packet(IN, 1)), "");
         TalkTest t = new TalkTest();
         t.request(128, 6, 256, 0, 18);
         t.bus.detach(0);
         t.bus.attach(0);
-        Check.due("attached again", hear(t.device, packet(IN, 0)), "" + NAK);
-        Check.due("not at its former address", hear(t.device, packet(IN, 1)), "");
+        Check.due("attached again", Inside.hear(t.device, Inside.packet(IN, 0)), "" + NAK);
+        Check.due("not at its former address", Inside.hear(t.device, Inside.packet(IN, 1)), "");
     }
 
     private static void waitingEndsWithAnyPacket() throws ReflectiveOperationException {
+        Check.of("Terms II, Promise 11", "what it waits for must be the very next packet that is sent, lost ones and those that can't be READ counting");
         int[] others = {SOF, ACK, NAK, STALL};
         for (int kind : others) {
             TalkTest t = new TalkTest();
             t.token(OUT, 1);
-            hear(t.device, packet(kind, 5));
+            Inside.hear(t.device, Inside.packet(kind, 5));
             Check.due("behind " + kind, t.data(DATA0, 7), "");
         }
         TalkTest t = new TalkTest();
         t.token(OUT, 1);
-        hear(t.device, null);
+        Inside.hear(t.device, null);
         Check.due("behind what can't be READ", t.data(DATA0, 7), "");
         t.token(OUT, 1);
-        hear(t.device, packet(OUT, 2 + 128));
+        Inside.hear(t.device, Inside.packet(OUT, 2 + 128));
         Check.due("behind a TOKEN of another one", t.data(DATA0, 7), "");
         t.token(SETUP, 0);
         Check.due("OUT behind SETUP", t.out(1, DATA0, 7), "" + ACK);
@@ -140,7 +100,7 @@ final class TalkTest {
         Scene.feed(t.bus, 1, 3);
         t.bus.put(0, 129, 3);
         Check.due("DATA", t.token(IN, 1), DATA0 + " 1 2 3");
-        hear(t.device, packet(SOF, 5));
+        Inside.hear(t.device, Inside.packet(SOF, 5));
         t.ack();
         Check.due("ACK was not the next one", t.token(IN, 1), DATA0 + " 1 2 3");
         t.ack();
@@ -148,6 +108,7 @@ final class TalkTest {
     }
 
     private static void setupThatIsNone() throws ReflectiveOperationException {
+        Check.of("Terms II, Promise 11", "SETUP, DATA0 of 8 bytes, endpoint 0 .. (Otherwise no answer, the earlier one goes on; SETUP to others: none.)");
         TalkTest t = new TalkTest();
         t.request(192, 1, 0, 0, 3);
         Check.due("DATA1", t.token(SETUP, 0) + t.data(DATA1, 128, 0, 0, 0, 0, 0, 2, 0), "");
@@ -157,6 +118,7 @@ final class TalkTest {
     }
 
     private static void bytesForTheHost() throws ReflectiveOperationException {
+        Check.of("Terms II, Promise 11", "bytes for the host .. or such a REQUEST through: DATA1 of no bytes: ACK, it is through; other DATA: STALL, refused");
         TalkTest t = new TalkTest();
         t.request(128, 6, 256, 0, 18);
         String first = DATA1 + " 18 1 0 2 255 0 0 8";
@@ -176,6 +138,7 @@ final class TalkTest {
     }
 
     private static void furtherInIsRefused() throws ReflectiveOperationException {
+        Check.of("Terms II, Promise 11", "when as many are gone as were asked for, or behind one of fewer than SIZE0, a further IN is refused: STALL");
         int[] lengths = {8, 18, 60};
         for (int length : lengths) {
             TalkTest t = new TalkTest();
@@ -196,6 +159,7 @@ final class TalkTest {
     }
 
     private static void statusOfBytesForTheHost() throws ReflectiveOperationException {
+        Check.of("Terms II, Promise 11", "bytes for the host (all, some or none gone) .. DATA1 of no bytes: ACK, it is through; other DATA: STALL, refused");
         TalkTest t = new TalkTest();
         t.request(128, 6, 256, 0, 18);
         Check.due("none gone", t.out(0, DATA1), "" + ACK);
@@ -209,6 +173,7 @@ final class TalkTest {
     }
 
     private static void bytesFromTheHost() throws ReflectiveOperationException {
+        Check.of("Terms II, Promise 11", "bytes from the host due: another toggle: ACK, let fall; more than are due: refused, STALL");
         TalkTest t = new TalkTest();
         t.request(64, 1, 10, 0, 5);
         Check.due("IN", t.token(IN, 0), "" + NAK);
@@ -231,6 +196,7 @@ final class TalkTest {
     }
 
     private static void statusToTheHost() throws ReflectiveOperationException {
+        Check.of("Terms II, Promise 11", "STATUS to the host due, or through: of another toggle than the next: ACK, let fall; else STALL, refused");
         TalkTest t = new TalkTest();
         t.request(0, 9, 1, 0, 0);
         Check.due("due, another toggle", t.out(0, DATA0), "" + ACK);
@@ -244,6 +210,7 @@ final class TalkTest {
     }
 
     private static void addressBehindAck() throws ReflectiveOperationException {
+        Check.of("Terms II, Promise 11", "0 5, value 1 .. 127: the address is value when STATUS is through, ADDRESSED; 0 9 .. not DEFAULT");
         int[] values = {0, 1, 127, 128, 65535};
         for (int value : values) {
             TalkTest t = new TalkTest();
@@ -263,14 +230,15 @@ final class TalkTest {
         Check.due("nothing of an earlier one goes on", t.bus.state(0, 1), 1);
         WireBus x = new WireBus(1);
         x.attach(0);
-        Object fresh = device(x);
-        hear(fresh, packet(SETUP, 0));
-        hear(fresh, packet(DATA0, 0, 0, 9, 1, 0, 0, 0, 0, 0));
-        Check.due("0 9, DEFAULT", hear(fresh, packet(IN, 0)), "" + STALL);
+        Object fresh = Inside.device(x, 0);
+        Inside.hear(fresh, Inside.packet(SETUP, 0));
+        Inside.hear(fresh, Inside.packet(DATA0, 0, 0, 9, 1, 0, 0, 0, 0, 0));
+        Check.due("0 9, DEFAULT", Inside.hear(fresh, Inside.packet(IN, 0)), "" + STALL);
         Check.due("0 9, DEFAULT", x.state(0, 0), 1);
     }
 
     private static void endpoints() throws ReflectiveOperationException {
+        Check.of("Terms II, Promise 11", "no room for all its bytes, or more than SIZE: NAK .. No other endpoint answers (but 0)");
         TalkTest t = new TalkTest();
         Check.due("more than SIZE", t.out(1, DATA0, 1, 2, 3, 4, 5, 6, 7, 8, 9), "" + NAK);
         Check.due("another toggle", t.out(1, DATA1, 1), "" + ACK);
@@ -283,5 +251,29 @@ final class TalkTest {
         Check.due("HALTED, another toggle", t.out(1, DATA0, 1), "" + STALL);
         t.request(2, 3, 0, 129, 0);
         Check.due("HALTED", t.token(IN, 1), "" + STALL);
+    }
+
+    private static void lengthNone() throws ReflectiveOperationException {
+        Check.of("Terms II, Promise 11", "With length 0 these have STATUS to the host due: no bytes for the host");
+        int[][] requests = {{128, 0, 0, 0}, {130, 0, 0, 129}, {128, 6, 256, 0}, {128, 6, 512, 0}, {128, 8, 0, 0}, {192, 1, 64, 0}, {64, 1, 64, 0}};
+        for (int[] r : requests) {
+            TalkTest t = new TalkTest();
+            t.request(r[0], r[1], r[2], r[3], 0);
+            Check.due("due, another toggle", t.out(0, DATA0), "" + ACK);
+            Check.due("IN", t.token(IN, 0), "" + DATA1);
+            t.ack();
+            Check.due("through, IN", t.token(IN, 0), "" + NAK);
+            Check.due("through, OUT", t.out(0, DATA1), "" + STALL);
+        }
+    }
+
+    private static void bytesAsTheyWere() throws ReflectiveOperationException {
+        Check.of("Terms II, Promise 11", "bytes for the host (as they were when the REQUEST came)");
+        TalkTest t = new TalkTest();
+        t.request(192, 1, 60, 0, 4);
+        Inside.row(t.device, "scratch")[63] = 9;
+        Check.due("SCRATCH has changed since", t.token(IN, 0), DATA1 + " 0 0 0 0");
+        t.request(192, 1, 60, 0, 4);
+        Check.due("the next REQUEST", t.token(IN, 0), DATA1 + " 0 0 0 9");
     }
 }

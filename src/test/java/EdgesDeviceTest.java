@@ -84,6 +84,13 @@ final class EdgesDeviceTest {
         Check.due("ENDPOINTS", Scene.pointOf(x, 2, 1) + " " + Scene.pointOf(x, 2, 130), "-1 -1 -1 -1 -1 -1 -1 -1 -1 -1");
         Check.due("told again", x.endpoint(2, 1, 16, 0) && x.endpoint(2, 130, 5, 3), true);
         Check.due("without bytes", Scene.pointOf(x, 2, 1) + " " + Scene.pointOf(x, 2, 130), "0 0 0 -1 0 0 0 0 -1 0");
+        Bus y = Scene.found(40);
+        Scene.feed(y, 1, 64);
+        Scene.ask(y, 0, 64, 1, 0, 0, 64);
+        y.detach(0);
+        Check.due("the first and the last of SCRATCH before", y.state(0, 5) + " " + y.state(0, 68), "1 64");
+        y.device(0, 8, 0, 0);
+        Check.due("after", y.state(0, 5) + " " + y.state(0, 68), "0 0");
     }
 
     private static void deviceNoneSuch() {
@@ -296,26 +303,26 @@ final class EdgesDeviceTest {
         for (int d : new int[] {1, 2, 5}) {
             Stays.no(Scene::busy, "attach(" + d + ")", x -> x.attach(d));
         }
+        for (int first = 0; first < 6; first++) {
+            for (int other = 0; other < 6; other++) {
+                Bus x = new Bus(1);
+                x.attach(first);
+                Check.due("attach(" + other + ") beside " + first, x.attach(other), false);
+                x.detach(first);
+                Check.due("attach(" + other + ") behind " + first, x.attach(other), true);
+            }
+        }
         Bus x = Scene.busy();
         x.detach(4);
         Check.due("ADDRESSED ones are no hindrance", x.state(3, 0) * 10 + (x.attach(1) ? 1 : 0), 21);
     }
 
-    private static Bus withTransfers(int made) {
-        Bus x = Scene.found(40);
-        for (int i = x.look(2); i < made; i++) {
-            x.send(0, 1, 0);
-        }
-        Check.due("made", x.look(2), made);
-        return x;
-    }
-
     private static void attachTransfers() {
         Check.of("Promise 6", "False, and all stays, if .. 290 TRANSFERS or more were");
         for (int made : new int[] {290, 291, 299, 300}) {
-            Stays.no(() -> withTransfers(made), "attach behind " + made, x -> x.attach(1));
+            Stays.no(() -> Scene.withTransfers(made), "attach behind " + made, x -> x.attach(1));
         }
-        Bus x = withTransfers(289);
+        Bus x = Scene.withTransfers(289);
         Check.due("attach behind 289", x.attach(1), true);
         Check.due("its first one", Scene.standOf(x, 289), "1 0 0 0 8 0");
         x.detach(1);

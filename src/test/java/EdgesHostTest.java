@@ -26,6 +26,7 @@ final class EdgesHostTest {
         controlAroundSizeZero();
         controlFewerBytes();
         sizeZeroUntilKnown();
+        findingRequests();
         findingWithManyTransfers();
         findingBeyondThreeHundred();
         findingBehindAllThatWait();
@@ -378,6 +379,27 @@ final class EdgesHostTest {
         }
     }
 
+    private static void findingRequests() {
+        Check.of("Terms III, Promise 6", "128 6 256 0 8 (address 0); 0 5, device + 1; then (at that address) 128 6 256 0 18; 128 6 512 0 9; "
+            + "128 6 512 0, the length in all; 0 9 1: the first device, the last device");
+        for (int d : new int[] {0, 5}) {
+            Bus x = new Bus(40);
+            x.device(d, 64, 0, 0);
+            x.endpoint(d, 1, 8, 0);
+            x.attach(d);
+            StringBuilder setups = new StringBuilder();
+            String[] said = Scene.served(x).split(", ");
+            for (int i = 0; i < said.length; i++) {
+                if (said[i].startsWith("SETUP ")) {
+                    setups.append(said[i].substring(6)).append(said[i + 1].substring(5)).append('/');
+                }
+            }
+            String at = (d + 1) + ".0 ";
+            Check.due("of device " + d, setups.toString(), "0.0 128 6 0 1 0 0 8 0/0.0 0 5 " + (d + 1) + " 0 0 0 0 0/" + at + "128 6 0 1 0 0 18 0/"
+                + at + "128 6 0 2 0 0 9 0/" + at + "128 6 0 2 0 0 25 0/" + at + "0 9 1 0 0 0 0 0/");
+        }
+    }
+
     private static void findingWithManyTransfers() {
         Check.of("Terms III, Promise 6", "control TRANSFERS (made however many there were)");
         Bus x = Scene.found(40);
@@ -488,19 +510,6 @@ final class EdgesHostTest {
         }
     }
 
-    private static Bus allClosed() {
-        Bus x = Scene.found(40);
-        for (int address : new int[] {1, 129, 130}) {
-            Scene.ask(x, 0, 2, 3, 0, address, 0);
-        }
-        x.send(0, 1, 0);
-        x.receive(0, 129, 1);
-        x.receive(0, 130, 1);
-        x.frames(2);
-        Check.due("closed", pipes(x), "2 2 2");
-        return x;
-    }
-
     private static String pipes(Bus x) {
         return x.point(0, 1, 4) + " " + x.point(0, 129, 4) + " " + x.point(0, 130, 4);
     }
@@ -510,12 +519,12 @@ final class EdgesHostTest {
         String[] after = {"1 2 2", "2 1 2", "2 2 1"};
         int[] addresses = {1, 129, 130};
         for (int i = 0; i < 3; i++) {
-            Bus x = allClosed();
+            Bus x = Scene.closed();
             Scene.ask(x, 0, 2, 1, 0, addresses[i], 0);
             Check.due("2 1 of " + addresses[i], pipes(x), after[i]);
         }
         for (int index : new int[] {0, 2, 128, 131, 257, 385}) {
-            Bus x = allClosed();
+            Bus x = Scene.closed();
             int t = Scene.ask(x, 0, 2, 1, 0, index, 0);
             Check.due("2 1 of " + index + ", which is refused", x.transfer(t, 2) + ", " + pipes(x), "2, 2 2 2");
         }
@@ -529,7 +538,7 @@ final class EdgesHostTest {
 
     private static void clearedByValue() {
         Check.of("Terms III, Promise 10", "CLEARED: behind a control TRANSFER 2 1 that is DONE, value 0");
-        Bus x = allClosed();
+        Bus x = Scene.closed();
         Scene.ask(x, 0, 2, 1, 1, 1, 0);
         Check.due("value 1 is refused", pipes(x), "2 2 2");
         Scene.ask(x, 0, 2, 3, 0, 1, 0);
@@ -544,7 +553,7 @@ final class EdgesHostTest {
 
     private static void clearedByConfiguration() {
         Check.of("Terms III, Promise 10", "Behind one 0 9 that is DONE, value 1, all pipes of the device are open, toggles 0");
-        Bus x = allClosed();
+        Bus x = Scene.closed();
         Scene.ask(x, 0, 0, 9, 2, 0, 0);
         Check.due("0 9 2 is refused", pipes(x), "2 2 2");
         Scene.ask(x, 0, 0, 9, 0, 0, 0);

@@ -365,6 +365,11 @@ final class EdgesLooksTest {
         }
         Check.due("the first one", x.packet(10, 1), 5);
         Check.due("the last one", x.packet(69, 1), 5);
+        Bus few = new Bus(1);
+        few.frames(3);
+        for (int p : new int[] {-1, -2, -57, -60, 3, 57, 60}) {
+            Check.due("packet(" + p + ", 1) of three", few.packet(p, 1), -1);
+        }
     }
 
     private static void packetWhatNoneSuch() {

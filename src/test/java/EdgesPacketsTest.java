@@ -35,14 +35,6 @@ final class EdgesPacketsTest {
         return text.toString();
     }
 
-    private static String text(int[] levels) {
-        StringBuilder text = new StringBuilder();
-        for (int level : levels) {
-            text.append("KJE".charAt(level));
-        }
-        return text.toString();
-    }
-
     /** The bits on the wire of DATA0 of these bytes, from the end of its FIRST BYTE on. */
     private static String dataBits(int... bytes) {
         Bus x = Scene.found(1);
@@ -50,7 +42,7 @@ final class EdgesPacketsTest {
         int p = x.look(1) + 2;
         x.frames(1);
         Check.due("it is READ", x.transfer(t, 2), 1);
-        Check.due("as the rules have it", text(Scene.levels(x, p)), text(Levels.data(3, bytes)));
+        Check.due("as the rules have it", Levels.text(Scene.levels(x, p)), Levels.text(Levels.data(3, bytes)));
         return bits(Scene.levels(x, p)).substring(16);
     }
 
@@ -68,7 +60,7 @@ final class EdgesPacketsTest {
         x.send(0, 1, 0);
         int p = x.look(1) + 3;
         x.frames(1);
-        Check.due("ACK", text(Scene.levels(x, p)), "KJKJKJKK" + "JJKJJKKK" + "EEJ");
+        Check.due("ACK", Levels.text(Scene.levels(x, p)), "KJKJKJKK" + "JJKJJKKK" + "EEJ");
     }
 
     private static void firstBytes() {
@@ -164,13 +156,13 @@ final class EdgesPacketsTest {
         x.endpoint(5, 135, 8, 0);
         x.attach(5);
         x.frames(1);
-        Check.due("SETUP 0.0", text(Scene.levels(x, 1)), text(Levels.token(13, 0, 0)));
+        Check.due("SETUP 0.0", Levels.text(Scene.levels(x, 1)), Levels.text(Levels.token(13, 0, 0)));
         x.send(5, 7, 0);
         x.receive(5, 135, 1);
         int p = x.look(1);
         x.frames(1);
         Check.due("OUT 6.7", bits(Scene.levels(x, p + 1)).substring(16, 27), "0110000" + "1110");
-        Check.due("IN 6.7", text(Scene.levels(x, p + 4)), text(Levels.token(9, 6, 7)));
+        Check.due("IN 6.7", Levels.text(Scene.levels(x, p + 4)), Levels.text(Levels.token(9, 6, 7)));
     }
 
     private static void frameNumbers() {
@@ -184,7 +176,7 @@ final class EdgesPacketsTest {
         }
         x.frames(46);
         int p = x.look(1) - 1;
-        Check.due("2047", text(Scene.levels(x, p)), text(Levels.startOfFrame(2047)));
+        Check.due("2047", Levels.text(Scene.levels(x, p)), Levels.text(Levels.startOfFrame(2047)));
         Check.due("a 1 ends the FIRST BYTE of SOF", bits(Scene.levels(x, p)).substring(15, 15 + 14), "111111" + "0" + "111111" + "0");
     }
 
@@ -212,9 +204,9 @@ final class EdgesPacketsTest {
             first[i] = 1 + i;
             second[i] = 66 + i;
         }
-        Check.due("OUT", text(Scene.levels(x, p + 2)), text(Levels.data(3, first)));
-        Check.due("IN", text(Scene.levels(x, p + 5)), text(Levels.data(3, second)));
-        Check.due("OUT, the 65th", text(Scene.levels(x, p + 8)), text(Levels.data(11, 65)));
+        Check.due("OUT", Levels.text(Scene.levels(x, p + 2)), Levels.text(Levels.data(3, first)));
+        Check.due("IN", Levels.text(Scene.levels(x, p + 5)), Levels.text(Levels.data(3, second)));
+        Check.due("OUT, the 65th", Levels.text(Scene.levels(x, p + 8)), Levels.text(Levels.data(11, 65)));
         Check.due("both are READ", Scene.standOf(x, out) + ", " + Scene.standOf(x, in), "0 1 1 65 65 0, 0 129 1 65 65 0");
     }
 

@@ -42,22 +42,6 @@ final class EdgesRequestsTest {
         Check.finish();
     }
 
-    private static String asked(Bus x, int type, int request, int value, int index, int length) {
-        int t = Scene.ask(x, 0, type, request, value, index, length);
-        String[] names = {"WAITS", "DONE", "STALLED", "FAILED"};
-        int status = x.transfer(t, 2);
-        return status < 0 ? "none" : (names[status] + " " + Scene.bytesOf(x, t)).trim();
-    }
-
-    private static String first(String bytes, int n) {
-        String[] words = bytes.split(" ");
-        StringBuilder text = new StringBuilder();
-        for (int i = 0; i < Math.min(n, words.length); i++) {
-            text.append(i == 0 ? "" : " ").append(words[i]);
-        }
-        return text.toString();
-    }
-
     private static void descriptorBytes() {
         Check.of("Terms II, Promise 10", "DEVICE DESCRIPTOR: .. vendor, product (low byte first)");
         int[] numbers = {0, 1, 255, 256, 65535};
@@ -74,7 +58,7 @@ final class EdgesRequestsTest {
         Check.of("Terms II, Promise 10", "CONFIGURATION: 9 2, its length in all .. how many ENDPOINTS: none");
         Bus x = new Bus(40);
         Scene.find(x, 0);
-        Check.due("18 bytes", asked(x, 128, 6, 512, 0, 100), "DONE 9 2 18 0 1 1 0 128 50 9 4 0 0 0 255 0 0 0");
+        Check.due("18 bytes", Scene.asked(x, 128, 6, 512, 0, 100), "DONE 9 2 18 0 1 1 0 128 50 9 4 0 0 0 255 0 0 0");
     }
 
     private static void configurationOfSix() {
@@ -88,9 +72,9 @@ final class EdgesRequestsTest {
         }
         Scene.find(x, 0);
         String all = "9 2 60 0 1 1 0 128 50 9 4 0 0 6 255 0 0 0" + rows;
-        Check.due("60 bytes", asked(x, 128, 6, 512, 0, 60), "DONE " + all);
-        Check.due("of 61", asked(x, 128, 6, 512, 0, 61), "DONE " + all);
-        Check.due("of 59", asked(x, 128, 6, 512, 0, 59), "DONE " + first(all, 59));
+        Check.due("60 bytes", Scene.asked(x, 128, 6, 512, 0, 60), "DONE " + all);
+        Check.due("of 61", Scene.asked(x, 128, 6, 512, 0, 61), "DONE " + all);
+        Check.due("of 59", Scene.asked(x, 128, 6, 512, 0, 59), "DONE " + Scene.first(all, 59));
     }
 
     private static void configurationOfTheMost() {
@@ -112,7 +96,7 @@ final class EdgesRequestsTest {
     private static void scratchAtFirst() {
         Check.of("Terms II, Promise 17", "SCRATCH: 64 bytes, 0 at first");
         Bus x = Scene.found(40);
-        Check.due("64", asked(x, 192, 1, 0, 0, 100), "DONE 0" + " 0".repeat(63));
+        Check.due("64", Scene.asked(x, 192, 1, 0, 0, 100), "DONE 0" + " 0".repeat(63));
         for (int what = 5; what < 69; what++) {
             Check.due("state", x.state(0, what), 0);
         }
@@ -130,7 +114,7 @@ final class EdgesRequestsTest {
         }
         x.frames(1);
         Check.due("left behind 16 of 20", Scene.standOf(x, t), "0 0 3 16 20 3");
-        Check.due("the next one", asked(x, 64, 1, 8, 0, 4), "DONE 21 22 23 24");
+        Check.due("the next one", Scene.asked(x, 64, 1, 8, 0, 4), "DONE 21 22 23 24");
         Check.due("SCRATCH", x.state(0, 5) + " " + x.state(0, 5 + 8) + " " + x.state(0, 5 + 12), "0 21 0");
         t = x.control(0, 64 * 256 + 1, 30, 0, 2);
         x.fault(x.look(1) + 3, 0, 0);
@@ -233,7 +217,7 @@ final class EdgesRequestsTest {
         Check.due("OUT", Scene.served(x), "OUT 1.1, DATA0, OUT 1.1, DATA0, OUT 1.1, DATA0");
         x.receive(0, 129, 1);
         Check.due("IN", Scene.served(x), "IN 1.1, IN 1.1, IN 1.1");
-        Check.due("endpoint 0", asked(x, 128, 0, 0, 0, 2), "DONE 0 0");
+        Check.due("endpoint 0", Scene.asked(x, 128, 0, 0, 0, 2), "DONE 0 0");
     }
 
     private static void zeroAtMostSizeZero() {
@@ -259,10 +243,10 @@ final class EdgesRequestsTest {
     private static void zeroRefusedUntilSetup() {
         Check.of("Terms II, Promise 10", "Refused: until the next SETUP");
         Bus x = Scene.found(40);
-        Check.due("refused", asked(x, 128, 6, 1, 0, 4), "STALLED");
-        Check.due("the next", asked(x, 128, 8, 0, 0, 1), "DONE 1");
-        Check.due("refused", asked(x, 0, 9, 7, 0, 0), "STALLED");
-        Check.due("the next", asked(x, 0, 9, 1, 0, 0), "DONE");
+        Check.due("refused", Scene.asked(x, 128, 6, 1, 0, 4), "STALLED");
+        Check.due("the next", Scene.asked(x, 128, 8, 0, 0, 1), "DONE 1");
+        Check.due("refused", Scene.asked(x, 0, 9, 7, 0, 0), "STALLED");
+        Check.due("the next", Scene.asked(x, 0, 9, 1, 0, 0), "DONE");
     }
 
     private static void zeroStatusWithoutAck() {
@@ -289,13 +273,13 @@ final class EdgesRequestsTest {
         Check.of("Terms II, Promise 10", "To the host, at most length bytes");
         Bus x = Scene.found(40);
         for (int length : new int[] {1, 2, 17, 18, 19, 100}) {
-            Check.due("DEVICE DESCRIPTOR, " + length, asked(x, 128, 6, 256, 0, length), "DONE " + first(DEVICE, length));
+            Check.due("DEVICE DESCRIPTOR, " + length, Scene.asked(x, 128, 6, 256, 0, length), "DONE " + Scene.first(DEVICE, length));
         }
-        Check.due("128 0, 1", asked(x, 128, 0, 0, 0, 1), "DONE 0");
-        Check.due("128 0, 3", asked(x, 128, 0, 0, 0, 3), "DONE 0 0");
-        Check.due("130 0, 1", asked(x, 130, 0, 0, 0, 1), "DONE 0");
-        Check.due("130 0, 3", asked(x, 130, 0, 0, 129, 3), "DONE 0 0");
-        Check.due("128 8, 2", asked(x, 128, 8, 0, 0, 2), "DONE 1");
+        Check.due("128 0, 1", Scene.asked(x, 128, 0, 0, 0, 1), "DONE 0");
+        Check.due("128 0, 3", Scene.asked(x, 128, 0, 0, 0, 3), "DONE 0 0");
+        Check.due("130 0, 1", Scene.asked(x, 130, 0, 0, 0, 1), "DONE 0");
+        Check.due("130 0, 3", Scene.asked(x, 130, 0, 0, 129, 3), "DONE 0 0");
+        Check.due("128 8, 2", Scene.asked(x, 128, 8, 0, 0, 2), "DONE 1");
     }
 
     private static void lengthNone() {
@@ -312,7 +296,7 @@ final class EdgesRequestsTest {
         int[][] refused = {{128, 1, 0, 0}, {130, 0, 0, 131}, {128, 6, 255, 0}, {192, 1, 65, 0}, {193, 1, 0, 0}};
         for (int[] r : refused) {
             Bus x = Scene.found(40);
-            Check.due("refused " + r[0] + " " + r[1], asked(x, r[0], r[1], r[2], r[3], 0), "STALLED");
+            Check.due("refused " + r[0] + " " + r[1], Scene.asked(x, r[0], r[1], r[2], r[3], 0), "STALLED");
         }
     }
 
@@ -320,13 +304,13 @@ final class EdgesRequestsTest {
         Check.of("Terms II, Promise 10", "130 0: index an ENDPOINT's ADDRESS: 1 or 0 (HALTED), 0; index 0 or 128: 0 0");
         Bus x = Scene.found(40);
         for (int index : new int[] {0, 128, 1, 129, 130}) {
-            Check.due("index " + index, asked(x, 130, 0, 65535, index, 2), "DONE 0 0");
+            Check.due("index " + index, Scene.asked(x, 130, 0, 65535, index, 2), "DONE 0 0");
         }
         for (int index : new int[] {1, 129, 130}) {
-            asked(x, 2, 3, 0, index, 0);
-            Check.due("HALTED " + index, asked(x, 130, 0, 0, index, 2), "DONE 1 0");
-            Check.due("index 0", asked(x, 130, 0, 0, 0, 2), "DONE 0 0");
-            Check.due("index 128", asked(x, 130, 0, 0, 128, 2), "DONE 0 0");
+            Scene.asked(x, 2, 3, 0, index, 0);
+            Check.due("HALTED " + index, Scene.asked(x, 130, 0, 0, index, 2), "DONE 1 0");
+            Check.due("index 0", Scene.asked(x, 130, 0, 0, 0, 2), "DONE 0 0");
+            Check.due("index 128", Scene.asked(x, 130, 0, 0, 128, 2), "DONE 0 0");
         }
     }
 
@@ -334,40 +318,40 @@ final class EdgesRequestsTest {
         Check.of("Terms II, Promise 10", "130 0: index an ENDPOINT's ADDRESS .. All others are refused");
         for (int index : new int[] {2, 7, 8, 127, 131, 135, 136, 255, 256, 257, 384, 65535}) {
             Bus x = Scene.found(40);
-            Check.due("index " + index, asked(x, 130, 0, 0, index, 2), "STALLED");
+            Check.due("index " + index, Scene.asked(x, 130, 0, 0, index, 2), "STALLED");
         }
     }
 
     private static void descriptorValues() {
         Check.of("Terms II, Promise 10", "128 6: value 256 the DEVICE DESCRIPTOR, 512 the CONFIGURATION");
         Bus x = Scene.found(40);
-        Check.due("256", asked(x, 128, 6, 256, 65535, 2), "DONE 18 1");
-        Check.due("512", asked(x, 128, 6, 512, 65535, 2), "DONE 9 2");
+        Check.due("256", Scene.asked(x, 128, 6, 256, 65535, 2), "DONE 18 1");
+        Check.due("512", Scene.asked(x, 128, 6, 512, 65535, 2), "DONE 9 2");
         for (int value : new int[] {0, 1, 255, 257, 511, 513, 768, 65535}) {
-            Check.due("value " + value, asked(x, 128, 6, value, 0, 2), "STALLED");
+            Check.due("value " + value, Scene.asked(x, 128, 6, value, 0, 2), "STALLED");
         }
     }
 
     private static void configuredOrNot() {
         Check.of("Terms II, Promise 10", "128 8: 1 if CONFIGURED, else 0");
         Bus x = Scene.found(40);
-        Check.due("CONFIGURED", asked(x, 128, 8, 9, 9, 1), "DONE 1");
-        asked(x, 0, 9, 0, 0, 0);
-        Check.due("ADDRESSED", asked(x, 128, 8, 9, 9, 1), "DONE 0");
+        Check.due("CONFIGURED", Scene.asked(x, 128, 8, 9, 9, 1), "DONE 1");
+        Scene.asked(x, 0, 9, 0, 0, 0);
+        Check.due("ADDRESSED", Scene.asked(x, 128, 8, 9, 9, 1), "DONE 0");
     }
 
     private static void scratchFrom() {
         Check.of("Terms II, Promise 10", "192 1, value 0 .. 64: SCRATCH from there on");
         Bus x = Scene.found(40);
         Scene.feed(x, 1, 64);
-        asked(x, 64, 1, 0, 0, 64);
-        Check.due("0", asked(x, 192, 1, 0, 0, 2), "DONE 1 2");
-        Check.due("1", asked(x, 192, 1, 1, 0, 2), "DONE 2 3");
-        Check.due("62", asked(x, 192, 1, 62, 0, 2), "DONE 63 64");
-        Check.due("63", asked(x, 192, 1, 63, 0, 2), "DONE 64");
-        Check.due("64", asked(x, 192, 1, 64, 0, 2), "DONE");
+        Scene.asked(x, 64, 1, 0, 0, 64);
+        Check.due("0", Scene.asked(x, 192, 1, 0, 0, 2), "DONE 1 2");
+        Check.due("1", Scene.asked(x, 192, 1, 1, 0, 2), "DONE 2 3");
+        Check.due("62", Scene.asked(x, 192, 1, 62, 0, 2), "DONE 63 64");
+        Check.due("63", Scene.asked(x, 192, 1, 63, 0, 2), "DONE 64");
+        Check.due("64", Scene.asked(x, 192, 1, 64, 0, 2), "DONE");
         for (int value : new int[] {65, 66, 128, 256, 65535}) {
-            Check.due("value " + value, asked(x, 192, 1, value, 0, 2), "STALLED");
+            Check.due("value " + value, Scene.asked(x, 192, 1, value, 0, 2), "STALLED");
         }
     }
 
@@ -377,7 +361,7 @@ final class EdgesRequestsTest {
         for (int[] f : fit) {
             Bus x = Scene.found(40);
             Scene.feed(x, 1, 64);
-            Check.due(f[0] + " + " + f[1], asked(x, 64, 1, f[0], 0, f[1]).startsWith("DONE"), true);
+            Check.due(f[0] + " + " + f[1], Scene.asked(x, 64, 1, f[0], 0, f[1]).startsWith("DONE"), true);
             Check.due("the first", x.state(0, 5 + f[0]), 1);
             Check.due("the last", x.state(0, 68), f[1]);
         }
@@ -385,7 +369,7 @@ final class EdgesRequestsTest {
         for (int[] w : wide) {
             Bus x = Scene.found(40);
             Scene.feed(x, 1, 100);
-            Check.due(w[0] + " + " + w[1], asked(x, 64, 1, w[0], 0, w[1]).startsWith("STALLED"), true);
+            Check.due(w[0] + " + " + w[1], Scene.asked(x, 64, 1, w[0], 0, w[1]).startsWith("STALLED"), true);
             for (int what = 5; what < 69; what++) {
                 Check.due("SCRATCH", x.state(0, what), 0);
             }
@@ -412,20 +396,20 @@ final class EdgesRequestsTest {
             Check.due("at " + value, said.substring(said.indexOf(", 0:ACK")), ", 0:ACK, IN 1.0, 0:DATA1, ACK");
         }
         Bus x = Scene.found(40);
-        Check.due("at 65", asked(x, 64, 1, 65, 0, 0), "STALLED");
+        Check.due("at 65", Scene.asked(x, 64, 1, 65, 0, 0), "STALLED");
     }
 
     private static void setConfigurationValues() {
         Check.of("Terms II, Promise 10", "0 9, value 0 or 1 .. ADDRESSED or CONFIGURED");
         Bus x = Scene.found(40);
-        Check.due("0", asked(x, 0, 9, 0, 65535, 0) + " " + x.state(0, 0), "DONE 2");
-        Check.due("0 again", asked(x, 0, 9, 0, 0, 0) + " " + x.state(0, 0), "DONE 2");
+        Check.due("0", Scene.asked(x, 0, 9, 0, 65535, 0) + " " + x.state(0, 0), "DONE 2");
+        Check.due("0 again", Scene.asked(x, 0, 9, 0, 0, 0) + " " + x.state(0, 0), "DONE 2");
         for (int value : new int[] {2, 3, 255, 256, 257, 65535}) {
-            Check.due("value " + value, asked(x, 0, 9, value, 0, 0) + " " + x.state(0, 0), "STALLED 2");
+            Check.due("value " + value, Scene.asked(x, 0, 9, value, 0, 0) + " " + x.state(0, 0), "STALLED 2");
         }
-        Check.due("1", asked(x, 0, 9, 1, 65535, 0) + " " + x.state(0, 0), "DONE 3");
+        Check.due("1", Scene.asked(x, 0, 9, 1, 65535, 0) + " " + x.state(0, 0), "DONE 3");
         for (int value : new int[] {2, 256, 65535}) {
-            Check.due("value " + value, asked(x, 0, 9, value, 0, 0) + " " + x.state(0, 0), "STALLED 3");
+            Check.due("value " + value, Scene.asked(x, 0, 9, value, 0, 0) + " " + x.state(0, 0), "STALLED 3");
         }
     }
 
@@ -441,11 +425,11 @@ final class EdgesRequestsTest {
             x.receive(0, 129, 16);
             x.fault(x.look(1) + 3, 0, 0);
             x.frames(1);
-            asked(x, 2, 3, 0, 1, 0);
+            Scene.asked(x, 2, 3, 0, 1, 0);
             Check.due("before", Scene.pointOf(x, 0, 1).substring(0, 5) + ", " + Scene.pointOf(x, 0, 129).substring(0, 5), "1 1 8, 1 0 4");
-            asked(x, 0, 9, value, 0, 0);
+            Scene.asked(x, 0, 9, value, 0, 0);
             Check.due("0 9 " + value, Scene.pointOf(x, 0, 1).substring(0, 5) + ", " + Scene.pointOf(x, 0, 129).substring(0, 5), "0 0 8, 0 0 4");
-            asked(x, 0, 9, 1, 0, 0);
+            Scene.asked(x, 0, 9, 1, 0, 0);
             x.put(0, 129, 2);
             int t = x.receive(0, 129, 16);
             x.frames(1);
@@ -457,26 +441,26 @@ final class EdgesRequestsTest {
         Check.of("Terms II, Promise 10", "2 1 and 2 3, value 0");
         Bus x = Scene.found(40);
         for (int value : new int[] {1, 2, 256, 65535}) {
-            Check.due("2 3, value " + value, asked(x, 2, 3, value, 1, 0) + " " + x.point(0, 1, 1), "STALLED 0");
+            Check.due("2 3, value " + value, Scene.asked(x, 2, 3, value, 1, 0) + " " + x.point(0, 1, 1), "STALLED 0");
         }
-        Check.due("2 3, value 0", asked(x, 2, 3, 0, 1, 0) + " " + x.point(0, 1, 1), "DONE 1");
+        Check.due("2 3, value 0", Scene.asked(x, 2, 3, 0, 1, 0) + " " + x.point(0, 1, 1), "DONE 1");
         for (int value : new int[] {1, 2, 256, 65535}) {
-            Check.due("2 1, value " + value, asked(x, 2, 1, value, 1, 0) + " " + x.point(0, 1, 1), "STALLED 1");
+            Check.due("2 1, value " + value, Scene.asked(x, 2, 1, value, 1, 0) + " " + x.point(0, 1, 1), "STALLED 1");
         }
-        Check.due("2 1, value 0", asked(x, 2, 1, 0, 1, 0) + " " + x.point(0, 1, 1), "DONE 0");
+        Check.due("2 1, value 0", Scene.asked(x, 2, 1, 0, 1, 0) + " " + x.point(0, 1, 1), "DONE 0");
     }
 
     private static void haltIndexes() {
         Check.of("Terms II, Promise 10", "2 1 and 2 3, .. index an ENDPOINT's ADDRESS");
         for (int index : new int[] {0, 2, 7, 8, 128, 131, 135, 256, 257, 385, 65535}) {
             Bus x = Scene.found(40);
-            Check.due("2 3 of " + index, asked(x, 2, 3, 0, index, 0), "STALLED");
-            Check.due("2 1 of " + index, asked(x, 2, 1, 0, index, 0), "STALLED");
+            Check.due("2 3 of " + index, Scene.asked(x, 2, 3, 0, index, 0), "STALLED");
+            Check.due("2 1 of " + index, Scene.asked(x, 2, 1, 0, index, 0), "STALLED");
             Check.due("none is HALTED", x.point(0, 1, 1) + x.point(0, 129, 1) + x.point(0, 130, 1), 0);
         }
         for (int index : new int[] {1, 129, 130}) {
             Bus x = Scene.found(40);
-            Check.due("2 3 of " + index, asked(x, 2, 3, 0, index, 0) + " " + x.point(0, index, 1), "DONE 1");
+            Check.due("2 3 of " + index, Scene.asked(x, 2, 3, 0, index, 0) + " " + x.point(0, index, 1), "DONE 1");
             Check.due("no other", x.point(0, 1, 1) + x.point(0, 129, 1) + x.point(0, 130, 1), 1);
         }
     }
@@ -484,9 +468,9 @@ final class EdgesRequestsTest {
     private static void haltNotConfigured() {
         Check.of("Terms II, Promise 10", "2 1 and 2 3, .. CONFIGURED");
         Bus x = Scene.found(40);
-        asked(x, 0, 9, 0, 0, 0);
-        Check.due("2 3, ADDRESSED", asked(x, 2, 3, 0, 1, 0) + " " + x.point(0, 1, 1), "STALLED 0");
-        Check.due("2 1, ADDRESSED", asked(x, 2, 1, 0, 1, 0), "STALLED");
+        Scene.asked(x, 0, 9, 0, 0, 0);
+        Check.due("2 3, ADDRESSED", Scene.asked(x, 2, 3, 0, 1, 0) + " " + x.point(0, 1, 1), "STALLED 0");
+        Check.due("2 1, ADDRESSED", Scene.asked(x, 2, 1, 0, 1, 0), "STALLED");
     }
 
     private static void haltNoMore() {
@@ -497,10 +481,10 @@ final class EdgesRequestsTest {
         x.put(0, 129, 20);
         x.receive(0, 129, 16);
         x.frames(1);
-        asked(x, 2, 3, 0, 1, 0);
-        asked(x, 2, 3, 0, 129, 0);
+        Scene.asked(x, 2, 3, 0, 1, 0);
+        Scene.asked(x, 2, 3, 0, 129, 0);
         Check.due("toggles and bytes stay", Scene.pointOf(x, 0, 1) + ", " + Scene.pointOf(x, 0, 129), "1 1 8 1 1, 1 1 4 1 1");
-        asked(x, 2, 3, 0, 129, 0);
+        Scene.asked(x, 2, 3, 0, 129, 0);
         Check.due("HALTED twice", Scene.pointOf(x, 0, 129), "1 1 4 1 1");
     }
 
@@ -516,7 +500,7 @@ final class EdgesRequestsTest {
         x.fault(x.look(1) + 3, 0, 0);
         x.frames(1);
         Check.due("two are sent without ACK", Scene.pointOf(x, 0, 129), "1 0 2 0 1");
-        asked(x, 2, 1, 0, 129, 0);
+        Scene.asked(x, 2, 1, 0, 129, 0);
         Check.due("2 1 of one that is not HALTED", Scene.pointOf(x, 0, 129), "0 0 2 0 1");
         Check.due("not the other one's", Scene.pointOf(x, 0, 1), "1 0 8 1 1");
         x.put(0, 129, 3);
@@ -530,10 +514,10 @@ final class EdgesRequestsTest {
         for (int length : new int[] {1, 16, 17}) {
             Bus x = Scene.found(40);
             Scene.feed(x, 1, 100);
-            Check.due("0 9 0", asked(x, 0, 9, 0, 0, length).startsWith("STALLED") + " " + x.state(0, 0), "true 3");
-            Check.due("2 3", asked(x, 2, 3, 0, 1, length).startsWith("STALLED") + " " + x.point(0, 1, 1), "true 0");
-            asked(x, 2, 3, 0, 1, 0);
-            Check.due("2 1", asked(x, 2, 1, 0, 1, length).startsWith("STALLED") + " " + x.point(0, 1, 1), "true 1");
+            Check.due("0 9 0", Scene.asked(x, 0, 9, 0, 0, length).startsWith("STALLED") + " " + x.state(0, 0), "true 3");
+            Check.due("2 3", Scene.asked(x, 2, 3, 0, 1, length).startsWith("STALLED") + " " + x.point(0, 1, 1), "true 0");
+            Scene.asked(x, 2, 3, 0, 1, 0);
+            Check.due("2 1", Scene.asked(x, 2, 1, 0, 1, length).startsWith("STALLED") + " " + x.point(0, 1, 1), "true 1");
         }
     }
 
@@ -547,7 +531,7 @@ final class EdgesRequestsTest {
             Scene.feed(x, 1, 4);
             for (int length = 0; length <= 1; length++) {
                 for (int index = 0; index <= 1; index++) {
-                    Check.due(o[0] + " " + o[1] + " of " + length, asked(x, o[0], o[1], 0, index, length).startsWith("STALLED"), true);
+                    Check.due(o[0] + " " + o[1] + " of " + length, Scene.asked(x, o[0], o[1], 0, index, length).startsWith("STALLED"), true);
                 }
             }
             Check.due("nothing changes", Scene.stateOf(x, 0) + ", " + Scene.pointOf(x, 0, 1), "3 1 2 16 3, 0 0 0 0 1");

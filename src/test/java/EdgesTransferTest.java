@@ -125,43 +125,19 @@ final class EdgesTransferTest {
         Stays.none(Scene::busy, "interrupt", x -> x.send(0, 130, 1));
     }
 
-    /** The pipes of all three ENDPOINTS of device 0 are closed, by STALL. */
-    private static Bus closed() {
-        Bus x = Scene.found(40);
-        Scene.feed(x, 1, 20);
-        for (int address : new int[] {1, 129, 130}) {
-            Scene.ask(x, 0, 2, 3, 0, address, 0);
-        }
-        x.send(0, 1, 1);
-        x.receive(0, 129, 1);
-        x.receive(0, 130, 1);
-        x.frames(2);
-        Check.due("closed", x.point(0, 1, 4) * 100 + x.point(0, 129, 4) * 10 + x.point(0, 130, 4), 222);
-        return x;
-    }
-
     private static void sendClosed() {
         Check.of("Promise 8", "(also not a closed one)");
-        Stays.none(EdgesTransferTest::closed, "send", x -> x.send(0, 1, 1));
-        Stays.none(EdgesTransferTest::closed, "send of none", x -> x.send(0, 1, 0));
-    }
-
-    private static Bus withTransfers(int made) {
-        Bus x = Scene.found(40);
-        Scene.feed(x, 1, 9);
-        for (int i = x.look(2); i < made; i++) {
-            x.send(0, 1, 0);
-        }
-        return x;
+        Stays.none(Scene::closed, "send", x -> x.send(0, 1, 1));
+        Stays.none(Scene::closed, "send of none", x -> x.send(0, 1, 0));
     }
 
     private static void sendThreeHundred() {
         Check.of("Promise 8", "NONE, and all stays, if .. 300 TRANSFERS or more were");
-        Check.due("behind 299", withTransfers(299).send(0, 1, 9), 299);
-        Stays.none(() -> withTransfers(300), "behind 300", x -> x.send(0, 1, 9));
-        Bus x = withTransfers(300);
+        Check.due("behind 299", Scene.withTransfers(299).send(0, 1, 1), 299);
+        Stays.none(() -> Scene.withTransfers(300), "behind 300", x -> x.send(0, 1, 1));
+        Bus x = Scene.withTransfers(300);
         x.frames(9);
-        Check.due("they were, though they WAIT no more", x.look(3) + x.send(0, 1, 9), -1);
+        Check.due("they were, though they WAIT no more", x.look(3) + x.send(0, 1, 1), -1);
     }
 
     private static void receiveOne() {
@@ -223,14 +199,14 @@ final class EdgesTransferTest {
 
     private static void receiveClosed() {
         Check.of("Promise 9", "likewise (also not a closed one)");
-        Stays.none(EdgesTransferTest::closed, "bulk", x -> x.receive(0, 129, 1));
-        Stays.none(EdgesTransferTest::closed, "interrupt", x -> x.receive(0, 130, 1));
+        Stays.none(Scene::closed, "bulk", x -> x.receive(0, 129, 1));
+        Stays.none(Scene::closed, "interrupt", x -> x.receive(0, 130, 1));
     }
 
     private static void receiveThreeHundred() {
         Check.of("Promise 9", "likewise: 300 TRANSFERS or more were");
-        Check.due("behind 299", withTransfers(299).receive(0, 129, 1), 299);
-        Stays.none(() -> withTransfers(300), "behind 300", x -> x.receive(0, 129, 1));
+        Check.due("behind 299", Scene.withTransfers(299).receive(0, 129, 1), 299);
+        Stays.none(() -> Scene.withTransfers(300), "behind 300", x -> x.receive(0, 129, 1));
     }
 
     /** Device 1 is to be found: so many TRANSFERS more than the six of device 0 were made, the last one of them WAITS. */
@@ -357,6 +333,16 @@ final class EdgesTransferTest {
             int lost = step;
             Stays.none(() -> notFound(lost), "behind step " + step, x -> x.control(1, ASK, 0, 0, 1));
         }
+        Bus x = notFound(3);
+        Check.due("with its address", x.control(1, ASK, 0, 0, 1), 10);
+        x.detach(1);
+        x.attach(1);
+        for (int i = 0; i < 3; i++) {
+            x.fault(x.look(1) + 1 + 3 * i, 0, 0);
+        }
+        x.frames(3);
+        Check.due("not found again", Scene.stateOf(x, 1), "1 0 3 8 0");
+        Check.due("the address of an earlier time is none", x.control(1, ASK, 0, 0, 1), -1);
     }
 
     private static void controlAddress() {
@@ -400,8 +386,8 @@ final class EdgesTransferTest {
 
     private static void controlThreeHundred() {
         Check.of("Promise 10", "NONE, and all stays, if .. 300 TRANSFERS or more were");
-        Check.due("behind 299", withTransfers(299).control(0, WRITE, 0, 0, 9), 299);
-        Stays.none(() -> withTransfers(300), "to the host behind 300", x -> x.control(0, ASK, 0, 0, 1));
-        Stays.none(() -> withTransfers(300), "from the host behind 300", x -> x.control(0, WRITE, 0, 0, 9));
+        Check.due("behind 299", Scene.withTransfers(299).control(0, WRITE, 0, 0, 1), 299);
+        Stays.none(() -> Scene.withTransfers(300), "to the host behind 300", x -> x.control(0, ASK, 0, 0, 1));
+        Stays.none(() -> Scene.withTransfers(300), "from the host behind 300", x -> x.control(0, WRITE, 0, 0, 1));
     }
 }

@@ -50,6 +50,14 @@ final class Levels {
         return levels;
     }
 
+    static String text(int[] levels) {
+        StringBuilder text = new StringBuilder();
+        for (int level : levels) {
+            text.append("KJE".charAt(level));
+        }
+        return text.toString();
+    }
+
     static String lowFirst(int number, int width) {
         StringBuilder bits = new StringBuilder();
         for (int i = 0; i < width; i++) {

@@ -45,24 +45,16 @@ final class PacketTest {
         Check.due("100", x.packet(100, 1), -1);
     }
 
-    private static String text(int[] levels) {
-        StringBuilder text = new StringBuilder();
-        for (int level : levels) {
-            text.append("KJE".charAt(level));
-        }
-        return text.toString();
-    }
-
     private static void levelsWrittenOut() {
         Bus x = Scene.found(10);
         x.send(0, 1, 0);
         int p = x.look(1);
         x.frames(1);
-        Check.due("ACK of the device", text(Scene.levels(x, p + 3)), "KJKJKJKK" + "JJKJJKKK" + "EEJ");
+        Check.due("ACK of the device", Levels.text(Scene.levels(x, p + 3)), "KJKJKJKK" + "JJKJJKKK" + "EEJ");
         Check.due("its sender", x.packet(p + 3, 0), 0);
-        Check.due("OUT", text(Scene.levels(x, p + 1)), text(Levels.token(1, 1, 1)));
+        Check.due("OUT", Levels.text(Scene.levels(x, p + 1)), Levels.text(Levels.token(1, 1, 1)));
         Check.due("the host's", x.packet(p + 1, 0), -1);
-        Check.due("DATA0 of no bytes", text(Scene.levels(x, p + 2)), "KJKJKJKK" + "KKJKJKKK" + "JKJKJKJKJKJKJKJK" + "EEJ");
+        Check.due("DATA0 of no bytes", Levels.text(Scene.levels(x, p + 2)), "KJKJKJKK" + "KKJKJKKK" + "JKJKJKJKJKJKJKJK" + "EEJ");
     }
 
     private static void levelsOfEveryKind() {
@@ -81,7 +73,7 @@ final class PacketTest {
         int[] kinds = {5, 13, 3, 2, 9, 14, 9, 3, 2, 9, 10};
         Check.due("packets", x.look(1) - p, wanted.length);
         for (int i = 0; i < wanted.length; i++) {
-            Check.due("levels of " + i, text(Scene.levels(x, p + i)), text(wanted[i]));
+            Check.due("levels of " + i, Levels.text(Scene.levels(x, p + i)), Levels.text(wanted[i]));
             Check.due("how many of " + i, x.packet(p + i, 2), wanted[i].length);
             Check.due("sender of " + i, x.packet(p + i, 0), senders[i]);
             Check.due("kind of " + i, x.packet(p + i, 1), kinds[i]);
@@ -102,7 +94,7 @@ final class PacketTest {
             int p = x.look(1);
             x.frames(1);
             int[] wanted = Levels.data(b % 2 == 0 ? 3 : 11, 255, b, 0x3F, b, 255, 255, 255, 255);
-            Check.due("byte " + b, text(Scene.levels(x, p + 2)), text(wanted));
+            Check.due("byte " + b, Levels.text(Scene.levels(x, p + 2)), Levels.text(wanted));
             for (int i = 0; i < 8; i++) {
                 x.take(0, 1);
             }
@@ -127,7 +119,7 @@ final class PacketTest {
             x.frames(1);
             Check.due("a 1 is there", Scene.standOf(x, t), "0 1 0 0 2 1");
             x.frames(1);
-            Check.due("levels", text(Scene.levels(x, x.look(1) - 2)), text(wanted));
+            Check.due("levels", Levels.text(Scene.levels(x, x.look(1) - 2)), Levels.text(wanted));
             Check.due("DONE", Scene.standOf(x, t), "0 1 1 2 2 0");
         }
         Check.due("there are such pairs", tried, 5);
@@ -157,7 +149,7 @@ final class PacketTest {
         x.frames(1);
         int[] all = new int[64];
         Arrays.fill(all, 255);
-        Check.due("levels", text(Scene.levels(x, p + 2)), text(Levels.data(3, all)));
+        Check.due("levels", Levels.text(Scene.levels(x, p + 2)), Levels.text(Levels.data(3, all)));
         Check.due("DONE", Scene.standOf(x, t), "0 1 1 64 64 0");
     }
 

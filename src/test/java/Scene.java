@@ -57,6 +57,32 @@ final class Scene {
         return x;
     }
 
+    /** Device 0 as above, its three ENDPOINTS HALTED and their pipes closed by STALL; twenty bytes on the tape. */
+    static Bus closed() {
+        Bus x = found(40);
+        feed(x, 1, 20);
+        for (int address : new int[] {1, 129, 130}) {
+            ask(x, 0, 2, 3, 0, address, 0);
+        }
+        x.send(0, 1, 0);
+        x.receive(0, 129, 1);
+        x.receive(0, 130, 1);
+        x.frames(2);
+        Check.due("closed", x.point(0, 1, 4) + " " + x.point(0, 129, 4) + " " + x.point(0, 130, 4), "2 2 2");
+        return x;
+    }
+
+    /** Device 0 as above, so many TRANSFERS made in all, most of which WAIT; three bytes on the tape. */
+    static Bus withTransfers(int made) {
+        Bus x = found(40);
+        feed(x, 1, 3);
+        for (int i = x.look(2); i < made; i++) {
+            x.send(0, 1, 0);
+        }
+        Check.due("made", x.look(2), made);
+        return x;
+    }
+
     static void find(Bus x, int d) {
         x.attach(d);
         runUntilStill(x);
@@ -96,6 +122,24 @@ final class Scene {
         int t = x.control(d, type * 256 + request, value, index, length);
         runUntilStill(x);
         return t;
+    }
+
+    /** A control TRANSFER to device 0, served at once: how it ended, and its bytes. */
+    static String asked(Bus x, int type, int request, int value, int index, int length) {
+        int t = ask(x, 0, type, request, value, index, length);
+        String[] names = {"WAITS", "DONE", "STALLED", "FAILED"};
+        int status = x.transfer(t, 2);
+        return status < 0 ? "none" : (names[status] + " " + bytesOf(x, t)).trim();
+    }
+
+    /** The first n words of a text. */
+    static String first(String words, int n) {
+        String[] all = words.split(" ");
+        StringBuilder text = new StringBuilder();
+        for (int i = 0; i < Math.min(n, all.length); i++) {
+            text.append(i == 0 ? "" : " ").append(all[i]);
+        }
+        return text.toString();
     }
 
     static String bytesOf(Bus x, int t) {

@@ -140,6 +140,13 @@ final class ReadTest {
         String bits = first(3) + "1111111111111111" + "00000000" + check("111111111111111100000000", 16);
         Check.due("the same bits", reads(Levels.lay(bits)), true);
         Check.due("without what is put in", reads(unstuffed(bits)), false);
+        String wire = bits.replace("111111", "1111110");
+        Check.due("with it", reads(unstuffed(wire)), true);
+        Check.due("1 0 is put in instead of 0", reads(unstuffed(bits.replace("111111", "11111110"))), false);
+        Check.due("0 0 is put in instead of 0", reads(unstuffed(bits.replace("111111", "11111100"))), false);
+        int first = wire.indexOf("1111110");
+        Check.due("1 0 once", reads(unstuffed(wire.substring(0, first) + "11111110" + wire.substring(first + 7))), false);
+        Check.due("a 0 is put in behind five", reads(unstuffed(bits.replace("11111", "111110"))), false);
         int tried = 0;
         for (int pair = 0; pair < 65536 && tried < 3; pair++) {
             String payload = Levels.lowFirst(pair, 16);

@@ -672,16 +672,21 @@ public final class WireBus {
             faultSpot[i] = faultSpot[faults];
         }
 
+        /** However many packets were: the count of them may wrap around long after the calls that the document speaks of. */
+        private Packet slot(int p) {
+            return kept[Math.floorMod(p, KEPT)];
+        }
+
         /** The next packet, to be filled and then carried. */
         Packet blank(int sender, int kind) {
-            Packet p = kept[sent % KEPT];
+            Packet p = slot(sent);
             p.restart(sender, kind);
             return p;
         }
 
         /** Sends the blank that was filled last: what the others READ, or null. */
         Packet carry() {
-            Packet p = kept[sent % KEPT];
+            Packet p = slot(sent);
             Packet read = faults == 0 ? p : strike(p);
             sent++;
             for (int d = 0; d < DEVICES; d++) {
@@ -730,12 +735,12 @@ public final class WireBus {
         }
 
         Packet recent(int p) {
-            return p >= 0 && p < sent && p >= sent - KEPT ? kept[p % KEPT] : null;
+            return p >= 0 && p < sent && p >= sent - KEPT ? slot(p) : null;
         }
 
         private void layOut(int p) {
             if (laidOut != p) {
-                coder.encode(kept[p % KEPT]);
+                coder.encode(slot(p));
                 laidOut = p;
             }
         }
@@ -746,7 +751,7 @@ public final class WireBus {
         }
 
         int levelOf(int p, int i) {
-            Packet of = kept[p % KEPT];
+            Packet of = slot(p);
             if (of.mark == CHANGED && i == of.spot) {
                 return of.level;
             }

@@ -6,11 +6,29 @@ final class WildCallsTest {
         9, 16, 20, 21, 32, 40, 60, 63, 64, 65, 68, 69, 100, 101, 127, 128, 129, 130, 135, 136, 200, 201, 255, 256, 257, 290, 300, 512, 513, 515,
         2047, 2048, 16385, 32767, 32768, 32774, 32776, 33280, 49153, 65535, 65536, Integer.MAX_VALUE - 6, Integer.MAX_VALUE - 1, Integer.MAX_VALUE};
 
-    public static void main(String[] args) {
+    public static void main(String[] args) throws ReflectiveOperationException {
         for (int seed = 0; seed < 600; seed++) {
             Check.due("seed " + seed, run(seed, seed % 2 == 0), run(seed, seed % 2 == 0));
         }
+        countThatWrapsAround();
         Check.finish();
+    }
+
+    /** More packets than an int counts need some 90,000 calls: the count is set ahead instead. */
+    private static void countThatWrapsAround() throws ReflectiveOperationException {
+        Check.of("LANGUAGE.md 7, Promises 11 and 19", "No call may ever throw or fail to end, for any arguments in any state");
+        WireBus x = new WireBus(3);
+        Inside.set(Inside.get(x, "wire"), "sent", Integer.MAX_VALUE - 100);
+        Check.due("attach", x.attach(0), true);
+        Check.due("frames", x.frames(200) >= 200, true);
+        Check.due("state", x.state(0, 2), 2);
+        Check.due("fault", x.fault(x.look(1), 1, 0) ? 1 : 0, 1);
+        Check.due("frames", x.frames(1), 1);
+        for (int p : EDGES) {
+            for (int what = -1; what < 50; what++) {
+                Check.due("packet", x.packet(p, what) >= -1, true);
+            }
+        }
     }
 
     private static long run(int seed, boolean wild) {

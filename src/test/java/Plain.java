@@ -3,7 +3,7 @@ import java.util.Arrays;
 import java.util.List;
 
 /**
- * The document written down a second time, as plainly as it goes and without a look at the class: all that is sent goes as
+ * The document written down a second time, as plainly as it goes and in other ways than the class: all that is sent goes as
  * levels, and whoever hears levels READs them. PlainTest compares the two in runs of calls.
  */
 final class Plain {
